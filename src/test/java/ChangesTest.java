@@ -14,6 +14,7 @@ public final class ChangesTest {
         undoCountsChanges();
         snapshots();
         snapshotsAndUndo();
+        loadedComesBack();
         Checks.end("ChangesTest");
     }
 
@@ -261,6 +262,33 @@ public final class ChangesTest {
             Checks.outOfBounds("save in slot " + slot, () -> x.saveSnapshot(slot));
             Checks.outOfBounds("restore slot " + slot, () -> x.restoreSnapshot(slot));
         }
+    }
+
+    /** The segments that were loaded come back too, where others have been loaded in between. */
+    private static void loadedComesBack() {
+        SharedLink x = Checks.net("net 2 1 8 100;link 1 40;player a buffer 9 1 10 20 30 40;player b rate 9 1 10 20;join b 2;");
+        x.saveSnapshot(1);
+        x.run(9);
+        String first = state(x);
+        x.saveSnapshot(0);
+        x.restoreSnapshot(1);
+        x.setRate(0, 7);
+        x.setRule(1, 0);
+        x.run(30);
+        String second = state(x);
+        Checks.due("another way", false, () -> second.equals(first));
+        x.restoreSnapshot(0);
+        Checks.due("the first way by a snapshot", first, () -> state(x));
+        x.restoreSnapshot(1);
+        x.run(9);
+        Checks.due("the first way by the same changes", first, () -> state(x));
+        x.undo();
+        x.setRate(0, 3);
+        x.run(40);
+        x.undo();
+        x.undo();
+        x.run(9);
+        Checks.due("the first way by undo", first, () -> state(x));
     }
 
     private static void snapshotsAndUndo() {

@@ -20,6 +20,8 @@ public final class OutlookTest {
         regret();
         others();
         leastRate();
+        justInTime();
+        oneAfterTheOther();
         nothingChanges();
         Checks.end("OutlookTest");
     }
@@ -97,6 +99,8 @@ public final class OutlookTest {
         String four = "player a lowest 1 1 100;player b lowest 1 1 3;player c lowest 1 2 40;player d lowest 1 3 1;";
         // 70: of 7 parts a 10, b 3, c 20, d 1; of the 36 left a 12, c 20 of 24; of the 4 left a 4
         shares("70", Checks.net("net 1 1 1 10;link 1 70;" + four), 26, 3, 40, 1);
+        // 60: of 7 parts a 8, b 3, c 17, d 1; of the 31 left of 3 parts a 10, c 20; the last byte a
+        shares("60", Checks.net("net 1 1 1 10;link 1 60;" + four), 19, 3, 37, 1);
         shares("2", Checks.net("net 1 1 1 10;link 1 2;" + four), 1, 1, 0, 0);
         // 6: of 7 parts a 0, b 0, c 1, d 1 of 2; of the 4 left of 4 parts a 1, b 1, c 2
         shares("6", Checks.net("net 1 1 1 10;link 1 6;" + four), 1, 1, 3, 1);
@@ -184,6 +188,8 @@ public final class OutlookTest {
         SharedLink loading = Checks.net("net 2 1 8 100;link 1 10;player a lowest 2 1 15 20 9000;");
         loading.run(1);
         Checks.due("for the segments for which it has not asked", 1, () -> loading.steadyQuality(0));
+        SharedLink never = Checks.net("net 1 1 1 10;link 1 1;player a lowest 1 1 1999 2000 2001;");
+        Checks.due("of a single segment", 1, () -> never.steadyQuality(0));
         noPlayer("steadyQuality", x, x::steadyQuality);
     }
 
@@ -235,6 +241,8 @@ public final class OutlookTest {
         Checks.due("of quality 1 thrice", 3, () -> x.regret(0));
         x.run(1);
         Checks.due("of quality 1 twice", 2, () -> x.regret(0));
+        x.run(1);
+        Checks.due("of quality 1 once", 1, () -> x.regret(0));
         x.quit(0);
         Checks.due("it has quit", 0, () -> x.regret(0));
         SharedLink y = Checks.net(CHOICE);
@@ -279,6 +287,46 @@ public final class OutlookTest {
         SharedLink y = Checks.net("net 2 1 2 100;link 1 100;player a lowest 3 1 100;");
         y.run(6);
         Checks.due("all are done", 0, y::leastRate);
+    }
+
+    /** A forecast ends at 2000: what is done then is done, what would be done in the next tick is not. */
+    private static void justInTime() {
+        SharedLink x = Checks.net("net 20 1 200 100;link 1 0;player a lowest 30 1 1 2;");
+        for (int i = 0; i < 7; i++) {
+            x.run(200);
+        }
+        x.setRate(0, 9999);
+        forecasts("just in time", x, 0, 0, 0, 0, 0, 30, 2000);
+        Checks.due("steady at 1400", 1, () -> x.steadyQuality(0));
+        oracles("at 1400", x, 0, 1, 1, 1);
+        Checks.due("regret at 1400 (it has asked for the first already)", 29, () -> x.regret(0));
+        Checks.due("leastRate at 1400", 100, x::leastRate);
+        x.undo();
+        x.run(1);
+        x.setRate(0, 9999);
+        forecasts("a tick too late", x, 0, 0, 0, 0, 0, 30, 2000);
+        Checks.due("steady at 1401", -1, () -> x.steadyQuality(0));
+        oracles("at 1401", x, 0, 0, 0, 0);
+        Checks.due("regret at 1401", 0, () -> x.regret(0));
+        Checks.due("leastRate at 1401", -1, x::leastRate);
+    }
+
+    /** No call leaves anything behind that another one takes up. */
+    private static void oneAfterTheOther() {
+        SharedLink x = Checks.net(CHOICE);
+        x.setRate(0, 40);
+        oracles("at 40", x, 0, 2, 2, 2, 2, -1);
+        x.setRate(0, 10);
+        oracles("at 10", x, 0, 2, 1, 1, 1, -1);
+        Checks.due("steady", 1, () -> x.steadyQuality(0));
+        oracles("at 10 again", x, 0, 2, 1, 1, 1, -1);
+        Checks.due("leastRate", 100, x::leastRate);
+        forecasts("by its rule and the rates of the link", x, 0, 0, 0, 0, 0, 4, 8);
+        Checks.due("share at 10", 10, () -> x.share(0));
+        Checks.due("it chooses by its rule", 0, () -> x.wouldChoose(0));
+        x.setRate(0, 3);
+        Checks.due("leastRate does not ask for the rate of the link", 100, x::leastRate);
+        Checks.due("share at 3", 3, () -> x.share(0));
     }
 
     private static void nothingChanges() {

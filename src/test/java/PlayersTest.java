@@ -105,6 +105,10 @@ public final class PlayersTest {
         parts(x, 1, 10, 10, 20, 20, 30, 30);
         Checks.due("switches", 2, () -> x.player(0, 8));
         Checks.due("sum of qualities", 6, () -> x.player(0, 9));
+        SharedLink y = Checks.net("net 4 1 8 100;link 1 1000;player a buffer 3 1 10 20 30 40;");
+        y.run(2);
+        parts(y, 0, 0, 1, -1);
+        Checks.due("a switch to the second", 1, () -> y.player(0, 8));
     }
 
     private static void rateRule() {
@@ -198,6 +202,8 @@ public final class PlayersTest {
     }
 
     private static void sizeOf() {
+        SharedLink one = Checks.net("net 1 1 1 10;vary 150;player z lowest 2 9 7 8;");
+        Checks.due("one percent", "10 12 10", () -> one.sizeOf(0, 0, 0) + " " + one.sizeOf(0, 1, 1) + " " + one.sizeOf(0, 1, 0));
         SharedLink x = Checks.net("net 1 1 1 10;player v lowest 30 9 1 5 9999;vary 50 200 77;");
         int[][] due = {{1, 2, 4999}, {2, 10, 19998}, {1, 3, 7699}};
         for (int k = 0; k < 30; k++) {

@@ -220,6 +220,30 @@ public final class TextTest {
         Checks.due("nothing is left of the first join", 0, () -> x.player(0, 16));
         Checks.illegalArgument("nothing is left of the first sizes", () -> x.sizeOf(0, 0, 1));
         Checks.due("nothing is left of the first link", 100, () -> x.rate(0));
+        twoNetsAlike();
+    }
+
+    private static void twoNetsAlike() {
+        String text = "net 2 1 8 100;link 1 25;link 2 10;vary 120;player zz buffer 9 1 10 20 40;player y rate 3 2 15 20;";
+        SharedLink x = Checks.net(text);
+        x.run(13);
+        x.quit(0);
+        Checks.due("the same net again", 0, () -> Checks.parse(x, text));
+        sizes("again", x, 2, 2, 2, 1, 8, 100, 1, 0, 0, 0, 0);
+        SharedLink fresh = Checks.net(text);
+        for (int ticks = 0; ticks < 30; ticks++) {
+            for (int p = 0; p < 2; p++) {
+                for (int what = 0; what <= 16; what++) {
+                    int player = p;
+                    int which = what;
+                    Checks.due("as in a new object", fresh.player(p, what), () -> x.player(player, which));
+                }
+            }
+            int tick = ticks;
+            Checks.due("the rate as in a new object", fresh.rate(tick), () -> x.rate(tick));
+            Checks.due("time", fresh.run(1), () -> x.run(1));
+        }
+        Checks.due("find zz", 0, () -> Checks.find(x, "zz"));
     }
 
     private static void parseLength() {
