@@ -39,6 +39,8 @@ public final class ChangesEdgesTest {
         restoreClears();
         restoreNoSlot();
         restoreEmpty();
+        noSuchFirst();
+        manyCalls();
         Checks.end("ChangesEdgesTest");
     }
 
@@ -61,7 +63,7 @@ public final class ChangesEdgesTest {
     // ---- CHANGES
 
     private static void changesAre() {
-        Checks.sentence("The methods from run to quit are changes if they throw no exception");
+        Checks.sentence("CHANGES", "The methods from run to quit are changes if they throw no exception");
         for (int which = 0; which < 5; which++) {
             int change = which;
             SharedLink x = ran(NET, 4);
@@ -94,7 +96,7 @@ public final class ChangesEdgesTest {
     }
 
     private static void changesThatAlterNothing() {
-        Checks.sentence("also if they alter nothing");
+        Checks.sentence("CHANGES", "also if they alter nothing");
         SharedLink x = ran(NET, 4);
         String before = Checks.state(x);
         x.setRule(0, 0);
@@ -113,7 +115,7 @@ public final class ChangesEdgesTest {
     }
 
     private static void latestTen() {
-        Checks.sentence("The latest 10 changes can be undone");
+        Checks.sentence("CHANGES", "The latest 10 changes can be undone");
         for (int changes = 9; changes <= 12; changes++) {
             SharedLink x = Checks.net(NET);
             for (int i = 0; i < changes; i++) {
@@ -129,7 +131,7 @@ public final class ChangesEdgesTest {
     }
 
     private static void latestFirst() {
-        Checks.sentence("the latest first");
+        Checks.sentence("CHANGES", "the latest first");
         SharedLink x = Checks.net(NET);
         String[] states = new String[6];
         for (int i = 0; i < 5; i++) {
@@ -143,7 +145,7 @@ public final class ChangesEdgesTest {
     }
 
     private static void tenAfterUndo() {
-        Checks.sentence("The latest 10 changes can be undone (over the end of the ten and back)");
+        Checks.sentence("CHANGES", "The latest 10 changes can be undone, the latest first.");
         SharedLink x = Checks.net(NET);
         for (int i = 0; i < 13; i++) {
             x.run(1);
@@ -166,7 +168,7 @@ public final class ChangesEdgesTest {
     }
 
     private static void slotsAreTwo() {
-        Checks.sentence("There are two snapshot slots, 0 and 1");
+        Checks.sentence("CHANGES", "There are two snapshot slots, 0 and 1");
         SharedLink x = ran(NET, 2);
         x.saveSnapshot(0);
         x.run(3);
@@ -180,7 +182,7 @@ public final class ChangesEdgesTest {
     }
 
     private static void snapshotHoldsAll() {
-        Checks.sentence("a snapshot holds everything that changes can change, the sums of account(), too");
+        Checks.sentence("CHANGES", "a snapshot holds everything that changes can change, the sums of account(), too");
         for (int which = 0; which < 5; which++) {
             SharedLink x = ran(NET, 7);
             String before = Checks.state(x);
@@ -199,7 +201,7 @@ public final class ChangesEdgesTest {
 
     /** What was loaded comes back where something else has been loaded since. */
     private static void snapshotHoldsLoaded() {
-        Checks.sentence("a snapshot holds everything that changes can change (what has been loaded)");
+        Checks.sentence("CHANGES", "a snapshot holds everything that changes can change");
         SharedLink x = Checks.net("net 1 60 10 100;link 1 70;player a buffer 12 1 10 20 30 40;");
         x.saveSnapshot(0);
         x.run(20);
@@ -220,10 +222,11 @@ public final class ChangesEdgesTest {
     // ---- promise 22
 
     private static void runTicks() {
-        Checks.sentence("run: ticks: 1 to 200; Throws IllegalArgumentException if ticks is out of range");
+        Checks.sentence("Promise 22 (run)", "ticks: 1 to 200");
         SharedLink x = Checks.net(NET);
         Checks.due("run(1)", 1, () -> x.run(1));
         Checks.due("run(200)", 201, () -> x.run(200));
+        Checks.sentence("Promise 22 (run)", "Throws IllegalArgumentException if ticks is out of range");
         for (int ticks : new int[] {0, -1, 201, 202, MOST, LEAST}) {
             Checks.illegalArgument("run(" + ticks + ")", () -> x.run(ticks));
         }
@@ -231,7 +234,7 @@ public final class ChangesEdgesTest {
     }
 
     private static void runToTheEnd() {
-        Checks.sentence("Throws IllegalStateException if the time would be greater than 2000");
+        Checks.sentence("Promise 22 (run)", "Throws IllegalStateException if the time would be greater than 2000");
         SharedLink x = Checks.net(NET);
         for (int i = 1; i <= 9; i++) {
             x.run(200);
@@ -253,7 +256,7 @@ public final class ChangesEdgesTest {
     }
 
     private static void runChecks() {
-        Checks.sentence("run: IllegalArgumentException, IllegalStateException");
+        Checks.sentence("The public face", "public int run(int ticks) throws IllegalArgumentException, IllegalStateException");
         SharedLink x = Checks.net("net 1 1 1 10;");
         for (int i = 1; i <= 10; i++) {
             x.run(200);
@@ -266,15 +269,19 @@ public final class ChangesEdgesTest {
     // ---- promises 23 to 25
 
     private static void ruleLimits() {
-        Checks.sentence("rule: 0 to 3; Returns the previous rule.; Throws IllegalArgumentException if rule is out of range");
+        Checks.sentence("Promise 23 (setRule)", "rule: 0 to 3");
         SharedLink x = Checks.net(NET);
         int[] rules = {3, 0, 1, 2, 2, 3};
         int before = 1;
         for (int rule : rules) {
-            Checks.due("setRule(1, " + rule + ")", before, () -> x.setRule(1, rule));
+            int previous = before;
+            Checks.sentence("Promise 23 (setRule)", "Returns the previous rule.");
+            Checks.due("setRule(1, " + rule + ")", previous, () -> x.setRule(1, rule));
+            Checks.sentence("Promise 23 (setRule)", "Sets the rule of a player.");
             Checks.due("is set", rule, () -> x.player(1, 12));
             before = rule;
         }
+        Checks.sentence("Promise 23 (setRule)", "Throws IllegalArgumentException if rule is out of range");
         for (int rule : new int[] {-1, 4, MOST, LEAST}) {
             Checks.illegalArgument("setRule(1, " + rule + ")", () -> x.setRule(1, rule));
         }
@@ -282,7 +289,7 @@ public final class ChangesEdgesTest {
     }
 
     private static void ruleChecksFirst() {
-        Checks.sentence("setRule: Throws IndexOutOfBoundsException if there is no such player (checked first)");
+        Checks.sentence("Promise 23 (setRule)", "Throws IndexOutOfBoundsException if there is no such player (checked first)");
         SharedLink x = Checks.net(NET);
         for (int player : new int[] {-1, 2, 3, 4, MOST, LEAST}) {
             Checks.outOfBounds("setRule(" + player + ", 0)", () -> x.setRule(player, 0));
@@ -292,15 +299,18 @@ public final class ChangesEdgesTest {
     }
 
     private static void weightLimits() {
-        Checks.sentence("weight: 1 to 9; Returns the previous weight.; Throws IllegalArgumentException if weight is out of range");
+        Checks.sentence("Promise 24 (setWeight)", "weight: 1 to 9");
         SharedLink x = Checks.net(NET);
         int before = 2;
         for (int weight : new int[] {9, 1, 5, 5, 9}) {
             int previous = before;
+            Checks.sentence("Promise 24 (setWeight)", "Returns the previous weight.");
             Checks.due("setWeight(1, " + weight + ")", previous, () -> x.setWeight(1, weight));
+            Checks.sentence("Promise 24 (setWeight)", "Sets the weight of a player.");
             Checks.due("is set", weight, () -> x.player(1, 13));
             before = weight;
         }
+        Checks.sentence("Promise 24 (setWeight)", "Throws IllegalArgumentException if weight is out of range");
         for (int weight : new int[] {0, -1, 10, MOST, LEAST}) {
             Checks.illegalArgument("setWeight(1, " + weight + ")", () -> x.setWeight(1, weight));
         }
@@ -310,7 +320,7 @@ public final class ChangesEdgesTest {
     }
 
     private static void weightChecksFirst() {
-        Checks.sentence("setWeight: Throws IndexOutOfBoundsException if there is no such player (checked first)");
+        Checks.sentence("Promise 24 (setWeight)", "Throws IndexOutOfBoundsException if there is no such player (checked first)");
         SharedLink x = Checks.net(NET);
         for (int player : new int[] {-1, 2, 3, 4, MOST, LEAST}) {
             Checks.outOfBounds("setWeight(" + player + ", 1)", () -> x.setWeight(player, 1));
@@ -320,15 +330,18 @@ public final class ChangesEdgesTest {
     }
 
     private static void rateLimits() {
-        Checks.sentence("rate: 0 to 9999; Returns the previous rate.; Throws IllegalArgumentException if rate is out of range");
+        Checks.sentence("Promise 25 (setRate)", "rate: 0 to 9999");
         SharedLink x = Checks.net(NET);
         int before = 20;
         for (int rate : new int[] {9999, 0, 1, 1, 9998}) {
             int previous = before;
+            Checks.sentence("Promise 25 (setRate)", "Returns the previous rate.");
             Checks.due("setRate(1, " + rate + ")", previous, () -> x.setRate(1, rate));
+            Checks.sentence("Promise 25 (setRate)", "Sets the rate of a piece of the link.");
             Checks.due("is set", rate, () -> x.rate(3));
             before = rate;
         }
+        Checks.sentence("Promise 25 (setRate)", "Throws IllegalArgumentException if rate is out of range");
         for (int rate : new int[] {-1, 10000, MOST, LEAST}) {
             Checks.illegalArgument("setRate(1, " + rate + ")", () -> x.setRate(1, rate));
         }
@@ -336,7 +349,7 @@ public final class ChangesEdgesTest {
     }
 
     private static void rateChecksFirst() {
-        Checks.sentence("setRate: Throws IndexOutOfBoundsException if there is no such piece (checked first)");
+        Checks.sentence("Promise 25 (setRate)", "Throws IndexOutOfBoundsException if there is no such piece (checked first)");
         SharedLink x = Checks.net(NET);
         for (int piece : new int[] {-1, 2, 3, 7, 8, MOST, LEAST}) {
             Checks.outOfBounds("setRate(" + piece + ", 0)", () -> x.setRate(piece, 0));
@@ -348,7 +361,7 @@ public final class ChangesEdgesTest {
     }
 
     private static void ratePieces() {
-        Checks.sentence("piece: a piece");
+        Checks.sentence("Promise 25 (setRate)", "piece: a piece");
         SharedLink x = Checks.net("net 1 1 1 10;link 1 1;link 1 2;link 1 3;link 1 4;link 1 5;link 1 6;link 1 7;link 1 8;");
         for (int i = 0; i < 8; i++) {
             int piece = i;
@@ -363,7 +376,7 @@ public final class ChangesEdgesTest {
     // ---- promise 26
 
     private static void quitStays() {
-        Checks.sentence("it loads and plays nothing any more; all of it but its state stays as it is (also what it has of the segment that it loads)");
+        Checks.sentence("Promise 26 (quit)", "it loads and plays nothing any more; all of it but its state stays as it is (also what it has of the segment that it loads)");
         SharedLink x = ran("net 4 2 12 100;link 1 15;player a lowest 9 1 20;player b lowest 3 1 1;join b 5;", 3);
         Checks.due("it plays, and has 15 of 20 bytes", "1 2 1 0 5", () -> Checks.row(0, 4, what -> x.player(0, what)));
         String before = Checks.row(1, 16, what -> x.player(0, what));
@@ -378,7 +391,7 @@ public final class ChangesEdgesTest {
     }
 
     private static void quitInVain() {
-        Checks.sentence("Returns the bytes of the segment that it loads which it has got in vain");
+        Checks.sentence("Promise 26 (quit)", "Returns the bytes of the segment that it loads which it has got in vain");
         String net = "net 1 1 1 10;link 1 7;player a lowest 9 1 50;";
         for (int ticks = 1; ticks <= 7; ticks++) {
             int due = 7 * ticks;
@@ -392,7 +405,7 @@ public final class ChangesEdgesTest {
     }
 
     private static void quitInVainZero() {
-        Checks.sentence("quit: 0 without one.");
+        Checks.sentence("Promise 26 (quit)", "0 without one.");
         SharedLink x = Checks.net("net 1 1 1 10;link 1 10;player a lowest 9 1 10;player b lowest 9 1 10;join b 9;");
         Checks.due("it has not joined", 0, () -> x.quit(1));
         Checks.due("it has not asked", 0, () -> x.quit(0));
@@ -402,7 +415,7 @@ public final class ChangesEdgesTest {
     }
 
     private static void quitNobody() {
-        Checks.sentence("quit: Throws IndexOutOfBoundsException if there is no such player (checked first)");
+        Checks.sentence("Promise 26 (quit)", "Throws IndexOutOfBoundsException if there is no such player (checked first)");
         SharedLink x = ran("net 1 1 1 10;player a lowest 1 1 1;player b lowest 1 1 1;", 1);
         for (int player : new int[] {-1, 2, 3, 4, MOST, LEAST}) {
             Checks.outOfBounds("quit(" + player + ")", () -> x.quit(player));
@@ -411,7 +424,7 @@ public final class ChangesEdgesTest {
     }
 
     private static void quitRefused() {
-        Checks.sentence("Throws IllegalStateException if it is done or has quit");
+        Checks.sentence("Promise 26 (quit)", "Throws IllegalStateException if it is done or has quit");
         SharedLink x = ran("net 2 1 9 10;player a lowest 1 1 1;player b lowest 9 1 1;", 1);
         x.saveSnapshot(0);
         Checks.due("one tick before it is done", 0, () -> x.quit(0));
@@ -430,7 +443,7 @@ public final class ChangesEdgesTest {
     }
 
     private static void quitStates() {
-        Checks.sentence("Lets a player quit (starting, playing or stalled)");
+        Checks.sentence("Promise 26 (quit)", "Lets a player quit");
         String net = "net 1 1 1 10;link 1 5;player a lowest 9 1 10;";
         int[] states = {0, 0, 1, 2, 1, 2};
         for (int ticks = 1; ticks < states.length; ticks++) {
@@ -446,7 +459,7 @@ public final class ChangesEdgesTest {
     // ---- promise 27
 
     private static void undoNone() {
-        Checks.sentence("undo: NONE if there was none to undo.");
+        Checks.sentence("Promise 27 (undo)", "NONE if there was none to undo.");
         Checks.due("a new object", -1, () -> new SharedLink().undo());
         SharedLink x = Checks.net(NET);
         Checks.due("a new net", -1, x::undo);
@@ -461,7 +474,7 @@ public final class ChangesEdgesTest {
     }
 
     private static void undoCounts() {
-        Checks.sentence("Returns the number of changes that can still be undone");
+        Checks.sentence("Promise 27 (undo)", "Returns the number of changes that can still be undone");
         SharedLink x = Checks.net(NET);
         x.run(1);
         x.setRule(0, 1);
@@ -477,7 +490,7 @@ public final class ChangesEdgesTest {
     // ---- promises 28 and 29
 
     private static void saveEarlier() {
-        Checks.sentence("Returns whether there was an earlier one.");
+        Checks.sentence("Promise 28 (saveSnapshot)", "Returns whether there was an earlier one.");
         SharedLink x = Checks.net(NET);
         Checks.due("slot 1", false, () -> x.saveSnapshot(1));
         Checks.due("slot 1 again", true, () -> x.saveSnapshot(1));
@@ -492,7 +505,7 @@ public final class ChangesEdgesTest {
     }
 
     private static void saveInPlace() {
-        Checks.sentence("Saves a snapshot in a slot, in place of an earlier one.");
+        Checks.sentence("Promise 28 (saveSnapshot)", "Saves a snapshot in a slot, in place of an earlier one.");
         SharedLink x = ran(NET, 3);
         x.saveSnapshot(0);
         x.saveSnapshot(1);
@@ -509,7 +522,7 @@ public final class ChangesEdgesTest {
     }
 
     private static void saveNoSlot() {
-        Checks.sentence("saveSnapshot: Throws IndexOutOfBoundsException if there is no such slot");
+        Checks.sentence("Promise 28 (saveSnapshot)", "Throws IndexOutOfBoundsException if there is no such slot");
         SharedLink x = Checks.net(NET);
         for (int slot : new int[] {-1, 2, 3, MOST, LEAST}) {
             Checks.outOfBounds("saveSnapshot(" + slot + ")", () -> x.saveSnapshot(slot));
@@ -519,7 +532,7 @@ public final class ChangesEdgesTest {
     }
 
     private static void restoreTime() {
-        Checks.sentence("Returns the time then.");
+        Checks.sentence("Promise 29 (restoreSnapshot)", "Returns the time then.");
         SharedLink x = Checks.net(NET);
         x.saveSnapshot(0);
         for (int i = 0; i < 10; i++) {
@@ -532,7 +545,7 @@ public final class ChangesEdgesTest {
     }
 
     private static void restoreStays() {
-        Checks.sentence("Restores the snapshot of a slot, which stays stored.");
+        Checks.sentence("Promise 29 (restoreSnapshot)", "Restores the snapshot of a slot, which stays stored.");
         SharedLink x = ran(NET, 6);
         String saved = Checks.state(x);
         x.saveSnapshot(0);
@@ -548,7 +561,7 @@ public final class ChangesEdgesTest {
     }
 
     private static void restoreClears() {
-        Checks.sentence("The undo history is cleared.");
+        Checks.sentence("Promise 29 (restoreSnapshot)", "The undo history is cleared.");
         SharedLink x = ran(NET, 6);
         x.saveSnapshot(0);
         x.run(1);
@@ -561,7 +574,7 @@ public final class ChangesEdgesTest {
     }
 
     private static void restoreNoSlot() {
-        Checks.sentence("restoreSnapshot: Throws IndexOutOfBoundsException if there is no such slot (checked first)");
+        Checks.sentence("Promise 29 (restoreSnapshot)", "Throws IndexOutOfBoundsException if there is no such slot (checked first)");
         SharedLink x = Checks.net(NET);
         for (int slot : new int[] {-1, 2, 3, MOST, LEAST}) {
             Checks.outOfBounds("both slots empty: restoreSnapshot(" + slot + ")", () -> x.restoreSnapshot(slot));
@@ -574,7 +587,7 @@ public final class ChangesEdgesTest {
     }
 
     private static void restoreEmpty() {
-        Checks.sentence("Throws IllegalStateException if the slot is empty");
+        Checks.sentence("Promise 29 (restoreSnapshot)", "Throws IllegalStateException if the slot is empty");
         SharedLink x = ran(NET, 3);
         Checks.illegalState("slot 0", () -> x.restoreSnapshot(0));
         Checks.illegalState("slot 1", () -> x.restoreSnapshot(1));
@@ -587,5 +600,37 @@ public final class ChangesEdgesTest {
         Checks.parse(x, NET);
         Checks.illegalState("slot 0 after a parse", () -> x.restoreSnapshot(0));
         Checks.illegalState("slot 1 after a parse", () -> x.restoreSnapshot(1));
+    }
+
+    // ---- all calls
+
+    private static void noSuchFirst() {
+        Checks.sentence("CHANGES", "Unless something else is said, a player or slot that does not exist causes an IndexOutOfBoundsException,"
+                + " which is checked before any other exception.");
+        SharedLink x = ran(NET, 3);
+        for (int wrong : new int[] {-1, 2, MOST, LEAST}) {
+            Checks.outOfBounds("player", () -> x.player(wrong, 17));
+            Checks.outOfBounds("loaded", () -> x.loaded(wrong, -1, 4));
+            Checks.outOfBounds("sizeOf", () -> x.sizeOf(wrong, -1, -1));
+            Checks.outOfBounds("forecast", () -> x.forecast(wrong, 6));
+            Checks.outOfBounds("setRule", () -> x.setRule(wrong, 4));
+            Checks.outOfBounds("setWeight", () -> x.setWeight(wrong, 10));
+            Checks.outOfBounds("setRate", () -> x.setRate(wrong, 10000));
+            Checks.outOfBounds("quit", () -> x.quit(wrong));
+            Checks.outOfBounds("saveSnapshot", () -> x.saveSnapshot(wrong));
+            Checks.outOfBounds("restoreSnapshot of empty slots", () -> x.restoreSnapshot(wrong));
+        }
+    }
+
+    private static void manyCalls() {
+        Checks.sentence("What it is", "An object is used for at most 512 calls after it has been made");
+        SharedLink x = new SharedLink();
+        int calls = (NET.length() + 19) / 20 + 1;
+        Checks.parse(x, NET);
+        for (; calls < 509; calls++) {
+            x.setRate(calls % 2, calls);
+        }
+        Checks.due("the calls 510 and 511", "508 10", () -> x.rate(0) + " " + x.size(10));
+        Checks.due("the call 512", 9, x::undo);
     }
 }

@@ -34,7 +34,7 @@ public final class ChangesTest {
         for (int i = 0; i < 60; i++) {
             many.run(1);
         }
-        Checks.due("60 ticks at once or one by one", state(one), () -> state(many));
+        Checks.due("60 ticks at once or one by one", Checks.state(one), () -> Checks.state(many));
     }
 
     private static void runToTheLastTime() {
@@ -134,30 +134,6 @@ public final class ChangesTest {
         Checks.due("no tick is stalled any more", "4 2", () -> z.player(0, 0) + " " + z.player(0, 6));
     }
 
-    private static String state(SharedLink x) {
-        StringBuilder all = new StringBuilder();
-        for (int what = 0; what < 10; what++) {
-            all.append(x.size(what)).append(' ');
-        }
-        for (int what = 0; what <= 3; what++) {
-            all.append(x.account(what)).append(' ');
-        }
-        for (int p = 0; p < x.size(0); p++) {
-            for (int what = 0; what <= 16; what++) {
-                all.append(x.player(p, what)).append(' ');
-            }
-            for (int k = 0; k < 30; k++) {
-                for (int part = 0; part < 4; part++) {
-                    all.append(x.loaded(p, k, part)).append(' ');
-                }
-            }
-        }
-        for (int tick = 0; tick < 10; tick++) {
-            all.append(x.rate(tick)).append(' ');
-        }
-        return all.append(x.forecast(0, 5)).append(' ').append(x.fairness()).toString();
-    }
-
     private static void change(SharedLink x, int which) {
         switch (which) {
             case 0: x.run(3); break;
@@ -172,11 +148,11 @@ public final class ChangesTest {
         for (int which = 0; which < 5; which++) {
             SharedLink x = Checks.net(NET);
             x.run(7);
-            String before = state(x);
+            String before = Checks.state(x);
             change(x, which);
-            Checks.due("the change " + which, false, () -> before.equals(state(x)));
+            Checks.due("the change " + which, false, () -> before.equals(Checks.state(x)));
             Checks.due("undo of the change " + which, 1, x::undo);
-            Checks.due("after undo of the change " + which, before, () -> state(x));
+            Checks.due("after undo of the change " + which, before, () -> Checks.state(x));
         }
         SharedLink x = Checks.net(NET);
         Checks.due("nothing to undo", -1, x::undo);
@@ -186,7 +162,7 @@ public final class ChangesTest {
         SharedLink x = Checks.net(NET);
         String[] states = new String[13];
         for (int i = 0; i < 13; i++) {
-            states[i] = state(x);
+            states[i] = Checks.state(x);
             int due = Math.min(i, 10);
             Checks.due("changes that can be undone", due, () -> x.size(10));
             if (i == 5) {
@@ -198,15 +174,15 @@ public final class ChangesTest {
         for (int i = 12; i > 2; i--) {
             int due = i - 3;
             Checks.due("undo", due, x::undo);
-            Checks.due("the state before the change " + i, states[i], () -> state(x));
+            Checks.due("the state before the change " + i, states[i], () -> Checks.state(x));
         }
         Checks.due("no more than ten", -1, x::undo);
-        Checks.due("that changed nothing", states[3], () -> state(x));
+        Checks.due("that changed nothing", states[3], () -> Checks.state(x));
         x.run(4);
         Checks.due("a change after undo", 1, () -> x.size(10));
-        Checks.due("it is done as before", states[4], () -> state(x));
+        Checks.due("it is done as before", states[4], () -> Checks.state(x));
         Checks.due("its undo", 0, x::undo);
-        Checks.due("the state", states[3], () -> state(x));
+        Checks.due("the state", states[3], () -> Checks.state(x));
     }
 
     private static void undoCountsChanges() {
@@ -242,19 +218,19 @@ public final class ChangesTest {
         x.setRule(1, 2);
         x.setWeight(0, 8);
         x.quit(1);
-        String later = state(x);
+        String later = Checks.state(x);
         Checks.illegalState("slot 1 is empty", () -> x.restoreSnapshot(1));
-        Checks.due("an exception changes nothing", "5 " + later, () -> x.size(10) + " " + state(x));
+        Checks.due("an exception changes nothing", "5 " + later, () -> x.size(10) + " " + Checks.state(x));
         Checks.due("slot 1", false, () -> x.saveSnapshot(1));
         Checks.due("to slot 0", 0, () -> x.restoreSnapshot(0));
-        Checks.due("all of it", state(Checks.net(NET)), () -> state(x));
+        Checks.due("all of it", Checks.state(Checks.net(NET)), () -> Checks.state(x));
         Checks.due("the undo history is cleared", "0 -1", () -> x.size(10) + " " + x.undo());
         x.run(30);
         Checks.due("to slot 1", 9, () -> x.restoreSnapshot(1));
-        Checks.due("all of it", later, () -> state(x));
+        Checks.due("all of it", later, () -> Checks.state(x));
         x.run(30);
         Checks.due("to slot 1 again", 9, () -> x.restoreSnapshot(1));
-        Checks.due("it stays stored", later, () -> state(x));
+        Checks.due("it stays stored", later, () -> Checks.state(x));
         Checks.due("slot 0 again", true, () -> x.saveSnapshot(0));
         x.run(1);
         Checks.due("the later one counts", 9, () -> x.restoreSnapshot(0));
@@ -269,26 +245,26 @@ public final class ChangesTest {
         SharedLink x = Checks.net("net 2 1 8 100;link 1 40;player a buffer 9 1 10 20 30 40;player b rate 9 1 10 20;join b 2;");
         x.saveSnapshot(1);
         x.run(9);
-        String first = state(x);
+        String first = Checks.state(x);
         x.saveSnapshot(0);
         x.restoreSnapshot(1);
         x.setRate(0, 7);
         x.setRule(1, 0);
         x.run(30);
-        String second = state(x);
+        String second = Checks.state(x);
         Checks.due("another way", false, () -> second.equals(first));
         x.restoreSnapshot(0);
-        Checks.due("the first way by a snapshot", first, () -> state(x));
+        Checks.due("the first way by a snapshot", first, () -> Checks.state(x));
         x.restoreSnapshot(1);
         x.run(9);
-        Checks.due("the first way by the same changes", first, () -> state(x));
+        Checks.due("the first way by the same changes", first, () -> Checks.state(x));
         x.undo();
         x.setRate(0, 3);
         x.run(40);
         x.undo();
         x.undo();
         x.run(9);
-        Checks.due("the first way by undo", first, () -> state(x));
+        Checks.due("the first way by undo", first, () -> Checks.state(x));
     }
 
     private static void snapshotsAndUndo() {

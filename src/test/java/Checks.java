@@ -15,9 +15,9 @@ final class Checks {
     private Checks() {
     }
 
-    /** The sentence of the document that the checks from here on test; it is told with what is wrong. */
-    static void sentence(String quote) {
-        sentence = quote.isEmpty() ? "" : " (\"" + quote + "\")";
+    /** The sentence of the document, word by word, that the checks from here on test; it is told with what is wrong. */
+    static void sentence(String place, String quote) {
+        sentence = " (" + place + ": \"" + quote + "\")";
     }
 
     /** The answer of a call as a text, or the name of what it throws behind "throws.". */

@@ -97,7 +97,7 @@ public final class OutlookEdgesTest {
     // ---- promise 11
 
     private static void wouldChooseAtAnyTime() {
-        Checks.sentence("Returns the quality that a player would choose for its next segment now, whether it can ask for it or not.");
+        Checks.sentence("Promise 11 (wouldChoose)", "Returns the quality that a player would choose for its next segment now, whether it can ask for it or not.");
         SharedLink x = ran("net 20 60 20 100;link 1 10;player a buffer 9 1 10 20;join a 1;", 1);
         Checks.due("it can ask", 0, () -> x.wouldChoose(0));
         x.undo();
@@ -114,7 +114,7 @@ public final class OutlookEdgesTest {
     }
 
     private static void wouldChooseAllAsked() {
-        Checks.sentence("wouldChoose: NONE if it has asked for all its segments already");
+        Checks.sentence("Promise 11 (wouldChoose)", "NONE if it has asked for all its segments already");
         SharedLink x = ran("net 1 1 1 100;link 1 10;player a lowest 3 1 20;", 4);
         Checks.due("one is left", "2 0", () -> x.player(0, 2) + " " + x.wouldChoose(0));
         x.run(1);
@@ -128,7 +128,7 @@ public final class OutlookEdgesTest {
     }
 
     private static void wouldChooseQuit() {
-        Checks.sentence("wouldChoose: or has quit.");
+        Checks.sentence("Promise 11 (wouldChoose)", "NONE if it has asked for all its segments already, or has quit.");
         SharedLink x = tight(10);
         Checks.due("before", 0, () -> x.wouldChoose(0));
         x.quit(0);
@@ -138,14 +138,14 @@ public final class OutlookEdgesTest {
     }
 
     private static void wouldChooseNobody() {
-        Checks.sentence("wouldChoose: Throws IndexOutOfBoundsException if there is no such player");
+        Checks.sentence("Promise 11 (wouldChoose)", "Throws IndexOutOfBoundsException if there is no such player");
         nobody("wouldChoose", two()::wouldChoose, new SharedLink()::wouldChoose);
     }
 
     // ---- promise 12
 
     private static void shareInTheNextTick() {
-        Checks.sentence("Returns the bytes that a player would get from the link in the next tick.");
+        Checks.sentence("Promise 12 (share)", "Returns the bytes that a player would get from the link in the next tick.");
         SharedLink x = Checks.net("net 2 1 2 100;link 1 7;link 1 0;link 1 9;player a lowest 3 1 10;");
         // a segment comes in the ticks 2, 6 and 9; the buffer is 1 at the times 3 and 7, so it asks in 0, 4 and 8
         int[] due = {7, 0, 3, 0, 0, 9, 1, 0, 9, 1};
@@ -164,7 +164,7 @@ public final class OutlookEdgesTest {
     }
 
     private static void shareWithJoin() {
-        Checks.sentence("A player has joined if the time is at least its tick of join (share)");
+        Checks.sentence("PLAYERS", "A player has joined if the time is at least its tick of join");
         SharedLink x = ran("net 1 1 1 10;link 1 8;player a lowest 1 1 50;player b lowest 1 3 50;join b 2;", 1);
         Checks.due("b joins in the tick 2, not in 1", "8 0", () -> Checks.row(0, 1, x::share));
         x.run(1);
@@ -172,7 +172,7 @@ public final class OutlookEdgesTest {
     }
 
     private static void shareAtTheEnd() {
-        Checks.sentence("the bytes that a player would get from the link in the next tick (at the time 2000)");
+        Checks.sentence("Promise 12 (share)", "the bytes that a player would get from the link in the next tick");
         SharedLink x = Checks.net("net 1 1 1 10;link 1 1;player a lowest 1 1 9999;");
         runTo(x, 1999);
         Checks.due("at 1999", "1999 1", () -> x.player(0, 10) + " " + x.share(0));
@@ -184,14 +184,14 @@ public final class OutlookEdgesTest {
     }
 
     private static void shareNobody() {
-        Checks.sentence("share: Throws IndexOutOfBoundsException if there is no such player");
+        Checks.sentence("Promise 12 (share)", "Throws IndexOutOfBoundsException if there is no such player");
         nobody("share", two()::share, new SharedLink()::share);
     }
 
     // ---- promise 13
 
     private static void forecastProperties() {
-        Checks.sentence("Returns a property that a player would have at the end of a forecast.");
+        Checks.sentence("Promise 13 (forecast)", "Returns a property that a player would have at the end of a forecast.");
         // Each segment of 2 ticks takes 3 ticks to come: stalled in the ticks 4 and 7, done in the tick 9.
         String stalling = "net 2 2 4 100;link 1 10;player a lowest 3 1 30;";
         SharedLink x = Checks.net(stalling + "player b lowest 9 1 10;");
@@ -209,7 +209,7 @@ public final class OutlookEdgesTest {
     }
 
     private static void forecastWhat() {
-        Checks.sentence("forecast: Throws IllegalArgumentException if what is out of range");
+        Checks.sentence("Promise 13 (forecast)", "Throws IllegalArgumentException if what is out of range");
         SharedLink x = two();
         for (int what : new int[] {-1, 6, 7, MOST, LEAST}) {
             Checks.illegalArgument("forecast(0, " + what + ")", () -> x.forecast(0, what));
@@ -219,7 +219,7 @@ public final class OutlookEdgesTest {
     }
 
     private static void forecastNobody() {
-        Checks.sentence("forecast: Throws IndexOutOfBoundsException if there is no such player (checked first)");
+        Checks.sentence("Promise 13 (forecast)", "Throws IndexOutOfBoundsException if there is no such player (checked first)");
         SharedLink x = two();
         SharedLink none = new SharedLink();
         for (int what : new int[] {0, 5, 6, -1}) {
@@ -230,12 +230,12 @@ public final class OutlookEdgesTest {
     // ---- promise 14
 
     private static void steadyGreatest() {
-        Checks.sentence("Returns the greatest quality with which a player would not stall any more");
+        Checks.sentence("Promise 14 (steadyQuality)", "Returns the greatest quality with which a player would not stall any more");
         int[][] due = {{9999, 3}, {41, 3}, {40, 3}, {39, 2}, {30, 2}, {29, 1}, {20, 1}, {19, 0}, {10, 0}};
         for (int[] row : due) {
             Checks.due("at the rate " + row[0], row[1], () -> tight(row[0]).steadyQuality(0));
         }
-        Checks.sentence("if it chose it for all segments for which it has not asked yet");
+        Checks.sentence("Promise 14 (steadyQuality)", "if it chose it for all segments for which it has not asked yet");
         SharedLink x = tight(20);
         x.run(1);
         x.setRate(0, 40);
@@ -246,7 +246,7 @@ public final class OutlookEdgesTest {
     }
 
     private static void steadyTicksStalled() {
-        Checks.sentence("its ticks stalled at the end are as many as now");
+        Checks.sentence("Promise 14 (steadyQuality)", "its ticks stalled at the end are as many as now");
         Checks.due("the second comes in the next tick", 3, () -> stalledThrice(40).steadyQuality(0));
         Checks.due("the third in quality 2", 2, () -> stalledThrice(30).steadyQuality(0));
         Checks.due("the third in quality 0", 0, () -> stalledThrice(10).steadyQuality(0));
@@ -258,7 +258,7 @@ public final class OutlookEdgesTest {
     }
 
     private static void steadyDone() {
-        Checks.sentence("and it is done");
+        Checks.sentence("Promise 14 (steadyQuality)", "and it is done");
         Checks.due("two ticks are left", 1, () -> late(1998).steadyQuality(0));
         Checks.due("one tick is left", -1, () -> late(1999).steadyQuality(0));
         Checks.due("none is left", -1, () -> late(2000).steadyQuality(0));
@@ -269,14 +269,14 @@ public final class OutlookEdgesTest {
     }
 
     private static void steadyNone() {
-        Checks.sentence("steadyQuality: NONE if there is none");
+        Checks.sentence("Promise 14 (steadyQuality)", "NONE if there is none");
         Checks.due("at the rate 10", 0, () -> tight(10).steadyQuality(0));
         Checks.due("at the rate 9", -1, () -> tight(9).steadyQuality(0));
         Checks.due("at the rate 0", -1, () -> tight(0).steadyQuality(0));
     }
 
     private static void steadyAllAsked() {
-        Checks.sentence("steadyQuality: if it has asked for all its segments already, or has quit");
+        Checks.sentence("Promise 14 (steadyQuality)", "if it has asked for all its segments already, or has quit");
         SharedLink x = ran("net 1 1 1 100;link 1 10;player a lowest 3 1 10;", 2);
         Checks.due("one is left", 0, () -> x.steadyQuality(0));
         x.setRate(0, 9);
@@ -292,7 +292,7 @@ public final class OutlookEdgesTest {
     }
 
     private static void steadyOthers() {
-        Checks.sentence("(all other players by their rules)");
+        Checks.sentence("Promise 14 (steadyQuality)", "(all other players by their rules)");
         SharedLink x = Checks.net("net 1 1 1 100;link 1 40;" + TIGHT + "player b lowest 30 1 10 9999;");
         Checks.due("b takes 10 in each tick", 2, () -> x.steadyQuality(0));
         x.setWeight(1, 9);
@@ -304,14 +304,14 @@ public final class OutlookEdgesTest {
     }
 
     private static void steadyNobody() {
-        Checks.sentence("steadyQuality: Throws IndexOutOfBoundsException if there is no such player");
+        Checks.sentence("Promise 14 (steadyQuality)", "Throws IndexOutOfBoundsException if there is no such player");
         nobody("steadyQuality", two()::steadyQuality, new SharedLink()::steadyQuality);
     }
 
     // ---- promise 15
 
     private static void oracleOfEach() {
-        Checks.sentence("For each segment for which it has not asked yet, in ascending order, that is the greatest quality with which,"
+        Checks.sentence("Promise 15 (oracle)", "For each segment for which it has not asked yet, in ascending order, that is the greatest quality with which,"
                 + " by a forecast, it would not stall any more");
         int[] rates = {9999, 40, 39, 30, 29, 20, 19, 10};
         String[] due = {"3 3 3 -1", "3 3 3 -1", "3 2 2 -1", "3 2 2 -1", "3 1 1 -1", "3 1 1 -1", "3 0 0 -1", "3 0 0 -1"};
@@ -325,7 +325,7 @@ public final class OutlookEdgesTest {
 
     /** At 10 bytes in a tick, with segments of 2 ticks: 40 bytes take 4 ticks, 20 just as many as they last. */
     private static void oracleBefore() {
-        Checks.sentence("if it chose for the segments before what it would choose so, and 0 for all segments behind");
+        Checks.sentence("Promise 15 (oracle)", "if it chose for the segments before what it would choose so, and 0 for all segments behind");
         SharedLink x = Checks.net("net 2 2 8 100;link 1 10;player a lowest 4 1 10 20 40;");
         Checks.due("the first delays the start alone", "2 1 1 1 -1", () -> Checks.row(0, 4, k -> x.oracle(0, k)));
         SharedLink y = Checks.net("net 2 4 8 100;link 1 10;player a lowest 4 1 10 20 40;");
@@ -336,7 +336,7 @@ public final class OutlookEdgesTest {
     }
 
     private static void oracleNoneIsZero() {
-        Checks.sentence("0 if there is none.");
+        Checks.sentence("Promise 15 (oracle)", "0 if there is none.");
         SharedLink x = tight(9);
         Checks.due("at the rate 9", "0 0 0 -1", () -> Checks.row(0, 3, k -> x.oracle(0, k)));
         SharedLink y = stalledThrice(9);
@@ -358,7 +358,7 @@ public final class OutlookEdgesTest {
     }
 
     private static void oracleK() {
-        Checks.sentence("k: 0 for the first segment for which it has not asked yet; NONE if there are not so many segments left, k is negative");
+        Checks.sentence("Promise 15 (oracle)", "NONE if there are not so many segments left, k is negative");
         SharedLink x = ran("net 1 1 1 100;link 1 10;player a lowest 3 1 20 30;", 1);
         Checks.due("it loads the first: two are left", "-1 0 0 -1", () -> Checks.row(-1, 2, k -> x.oracle(0, k)));
         x.setRate(0, 30);
@@ -379,7 +379,7 @@ public final class OutlookEdgesTest {
     }
 
     private static void oracleQuit() {
-        Checks.sentence("oracle: NONE if .. it has quit.");
+        Checks.sentence("Promise 15 (oracle)", "NONE if there are not so many segments left, k is negative, or it has quit.");
         SharedLink x = tight(40);
         Checks.due("before", 3, () -> x.oracle(0, 0));
         x.quit(0);
@@ -387,7 +387,7 @@ public final class OutlookEdgesTest {
     }
 
     private static void oracleNobody() {
-        Checks.sentence("oracle: Throws IndexOutOfBoundsException if there is no such player");
+        Checks.sentence("Promise 15 (oracle)", "Throws IndexOutOfBoundsException if there is no such player");
         SharedLink x = two();
         SharedLink none = new SharedLink();
         for (int k : new int[] {0, -1, 99}) {
@@ -398,7 +398,7 @@ public final class OutlookEdgesTest {
     // ---- promise 16
 
     private static void regretGreater() {
-        Checks.sentence("by how much the sum of qualities .. is greater than the one that it would have by its rule");
+        Checks.sentence("Promise 16 (regret)", "is greater than the one that it would have by its rule");
         int[][] due = {{40, 9}, {39, 7}, {20, 5}, {19, 3}, {10, 3}, {9, 0}, {0, 0}};
         for (int[] row : due) {
             Checks.due("at the rate " + row[0], row[1], () -> tight(row[0]).regret(0));
@@ -411,13 +411,13 @@ public final class OutlookEdgesTest {
     }
 
     private static void regretNegative() {
-        Checks.sentence("it is negative if the rule gives more");
+        Checks.sentence("Promise 16 (regret)", "it is negative if the rule gives more");
         SharedLink x = Checks.net(GREEDY);
         Checks.due("the rule gives 10, the oracle 7", "10 -3", () -> x.forecast(0, 3) + " " + x.regret(0));
     }
 
     private static void regretQuit() {
-        Checks.sentence("0 if it has quit.");
+        Checks.sentence("Promise 16 (regret)", "0 if it has quit.");
         SharedLink x = tight(40);
         Checks.due("before", 9, () -> x.regret(0));
         x.quit(0);
@@ -428,7 +428,7 @@ public final class OutlookEdgesTest {
     }
 
     private static void regretNobody() {
-        Checks.sentence("regret: Throws IndexOutOfBoundsException if there is no such player");
+        Checks.sentence("Promise 16 (regret)", "Throws IndexOutOfBoundsException if there is no such player");
         nobody("regret", two()::regret, new SharedLink()::regret);
     }
 
@@ -439,7 +439,7 @@ public final class OutlookEdgesTest {
     }
 
     private static void leastRateOfMultiples() {
-        Checks.sentence("Returns the least such rate of the multiples of 100 from 0 to 9900");
+        Checks.sentence("Promise 17 (leastRate)", "Returns the least such rate of the multiples of 100 from 0 to 9900");
         int[][] due = {{1, 100}, {99, 100}, {100, 100}, {101, 200}, {200, 200}, {201, 300}, {9800, 9800}, {9801, 9900}, {9900, 9900}};
         for (int[] row : due) {
             Checks.due("segments of " + row[0], row[1], () -> ofSize(row[0]).leastRate());
@@ -450,14 +450,14 @@ public final class OutlookEdgesTest {
     }
 
     private static void leastRateNone() {
-        Checks.sentence("NONE if there is none.");
+        Checks.sentence("Promise 17 (leastRate)", "NONE if there is none.");
         Checks.due("segments of 9901", -1, () -> ofSize(9901).leastRate());
         Checks.due("segments of 9999", -1, () -> ofSize(9999).leastRate());
         Checks.due("it never starts", -1, () -> Checks.net("net 1 60 1 10;player a lowest 2 1 1;").leastRate());
     }
 
     private static void leastRateQuit() {
-        Checks.sentence("all players (but those that have quit) are done");
+        Checks.sentence("Promise 17 (leastRate)", "all players (but those that have quit) are done");
         SharedLink x = Checks.net("net 1 1 1 10;link 1 1;player a lowest 3 1 150;player b lowest 3 1 9999;");
         Checks.due("with b", -1, x::leastRate);
         x.quit(1);
@@ -467,7 +467,7 @@ public final class OutlookEdgesTest {
     }
 
     private static void leastRateStalled() {
-        Checks.sentence("with as many ticks stalled as now");
+        Checks.sentence("Promise 17 (leastRate)", "with as many ticks stalled as now");
         SharedLink x = ran("net 1 1 1 10;link 1 150;player a lowest 2 1 150;", 1);
         x.setRate(0, 10);
         x.run(4);
@@ -481,7 +481,7 @@ public final class OutlookEdgesTest {
     }
 
     private static void leastRateDone() {
-        Checks.sentence("so that no player stalled any more by a forecast");
+        Checks.sentence("Promise 17 (leastRate)", "so that no player stalled any more by a forecast");
         Checks.due("two ticks are left", 100, () -> late(1998).leastRate());
         Checks.due("one tick is left", -1, () -> late(1999).leastRate());
         Checks.due("none is left", -1, () -> late(2000).leastRate());
@@ -492,7 +492,7 @@ public final class OutlookEdgesTest {
 
     /** In all orders: no call takes up what another one tried. */
     private static void nothingStays() {
-        Checks.sentence("what would be; nothing changes");
+        Checks.sentence("The public face", "what would be; nothing changes");
         SharedLink x = Checks.net("net 1 1 1 100;link 2 39;link 1 35;" + TIGHT + "player b lowest 2 1 1;join b 50;");
         String[] due = {"0 0 0 0 3 52", "2", "3 2 2 -1", "7", "100", "39", "0"};
         for (int first = 0; first < due.length; first++) {

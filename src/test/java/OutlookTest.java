@@ -332,7 +332,8 @@ public final class OutlookTest {
     private static void nothingChanges() {
         SharedLink x = Checks.net("net 2 2 8 100;link 1 7;link 2 20;vary 90 120;player a mix 9 1 10 20 40;player b rate 9 2 10 20 40;");
         x.run(9);
-        String before = everything(x);
+        int changes = x.size(10);
+        String before = Checks.state(x);
         for (int p = 0; p < 2; p++) {
             x.wouldChoose(p);
             x.share(p);
@@ -342,30 +343,12 @@ public final class OutlookTest {
             x.regret(p);
         }
         x.leastRate();
-        Checks.due("nothing changes", before, () -> everything(x));
+        Checks.due("nothing changes", before, () -> Checks.state(x));
+        Checks.due("no change to undo more", changes, () -> x.size(10));
         x.run(20);
         SharedLink y = Checks.net("net 2 2 8 100;link 1 7;link 2 20;vary 90 120;player a mix 9 1 10 20 40;player b rate 9 2 10 20 40;");
         y.run(9);
         y.run(20);
-        Checks.due("nothing changes later on either", everything(y), () -> everything(x));
-    }
-
-    private static String everything(SharedLink x) {
-        StringBuilder all = new StringBuilder();
-        for (int what = 0; what <= 10; what++) {
-            all.append(x.size(what)).append(' ');
-        }
-        for (int what = 0; what <= 3; what++) {
-            all.append(x.account(what)).append(' ');
-        }
-        for (int p = 0; p < x.size(0); p++) {
-            for (int what = 0; what <= 16; what++) {
-                all.append(x.player(p, what)).append(' ');
-            }
-            for (int k = 0; k < 30; k++) {
-                all.append(x.loaded(p, k, 0)).append(',').append(x.loaded(p, k, 3)).append(' ');
-            }
-        }
-        return all.append(x.rate(x.size(7))).toString();
+        Checks.due("nothing changes later on either", Checks.state(y), () -> Checks.state(x));
     }
 }

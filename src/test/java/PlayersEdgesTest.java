@@ -32,7 +32,7 @@ public final class PlayersEdgesTest {
     }
 
     private static void playerNumbers() {
-        Checks.sentence("player: Throws IndexOutOfBoundsException if there is no such player");
+        Checks.sentence("Promise 8 (player)", "Throws IndexOutOfBoundsException if there is no such player");
         SharedLink x = ran(TWO, 6);
         for (int player : NO_PLAYER_OF_TWO) {
             Checks.outOfBounds("player(" + player + ", 0)", () -> x.player(player, 0));
@@ -46,7 +46,7 @@ public final class PlayersEdgesTest {
     }
 
     private static void playerWhat() {
-        Checks.sentence("player: Throws IllegalArgumentException if what is out of range");
+        Checks.sentence("Promise 8 (player)", "Throws IllegalArgumentException if what is out of range");
         SharedLink x = ran(TWO, 6);
         for (int what : new int[] {-1, 17, 18, Integer.MAX_VALUE, Integer.MIN_VALUE}) {
             Checks.illegalArgument("player(0, " + what + ")", () -> x.player(0, what));
@@ -57,14 +57,14 @@ public final class PlayersEdgesTest {
     }
 
     private static void playerChecksFirst() {
-        Checks.sentence("player: if there is no such player (checked first)");
+        Checks.sentence("Promise 8 (player)", "Throws IndexOutOfBoundsException if there is no such player (checked first)");
         SharedLink x = Checks.net(TWO);
         Checks.outOfBounds("player(2, 17)", () -> x.player(2, 17));
         Checks.outOfBounds("player(-1, -1)", () -> x.player(-1, -1));
     }
 
     private static void stateBeforeJoin() {
-        Checks.sentence("0 starting (also if it has not joined)");
+        Checks.sentence("Promise 8 (player)", "0 starting (also if it has not joined)");
         SharedLink x = ran("net 1 1 1 10;link 1 0;player a lowest 1 1 5;join a 3;", 3);
         Checks.due("it has not joined", 0, () -> x.player(0, 0));
         x.run(1);
@@ -72,7 +72,7 @@ public final class PlayersEdgesTest {
     }
 
     private static void states() {
-        Checks.sentence("0 starting, 1 playing, 2 stalled, 3 done, 4 it has quit");
+        Checks.sentence("Promise 8 (player)", "1 playing, 2 stalled, 3 done, 4 it has quit");
         SharedLink x = Checks.net("net 1 1 1 10;link 1 5;player a lowest 2 1 5;player b lowest 9 1 99;");
         x.quit(1);
         StringBuilder states = new StringBuilder();
@@ -86,7 +86,7 @@ public final class PlayersEdgesTest {
     }
 
     private static void qualityWithoutSegment() {
-        Checks.sentence("3 the quality of the segment that it loads (NONE without one)");
+        Checks.sentence("Promise 8 (player)", "3 the quality of the segment that it loads (NONE without one)");
         SharedLink x = Checks.net("net 1 1 1 10;link 1 5;player a lowest 1 1 10;");
         Checks.due("it has not asked", -1, () -> x.player(0, 3));
         x.run(1);
@@ -96,7 +96,7 @@ public final class PlayersEdgesTest {
     }
 
     private static void missingWithoutSegment() {
-        Checks.sentence("4 the bytes of it that are missing (0 without one)");
+        Checks.sentence("Promise 8 (player)", "4 the bytes of it that are missing (0 without one)");
         SharedLink x = Checks.net("net 1 1 1 10;link 1 9;player a lowest 1 1 10;");
         Checks.due("it has not asked", 0, () -> x.player(0, 4));
         x.run(1);
@@ -106,7 +106,7 @@ public final class PlayersEdgesTest {
     }
 
     private static void firstSegmentIsNoSwitch() {
-        Checks.sentence("A switch is a loaded segment whose quality differs from that of the loaded segment before.");
+        Checks.sentence("Promise 9 (loaded)", "A switch is a loaded segment whose quality differs from that of the loaded segment before.");
         SharedLink x = Checks.net("net 20 1 1 100;player a buffer 3 1 10 20;");
         Checks.due("none", 0, () -> x.player(0, 8));
         x.run(1);
@@ -116,7 +116,7 @@ public final class PlayersEdgesTest {
     }
 
     private static void secondIsSwitch() {
-        Checks.sentence("a loaded segment whose quality differs from that of the loaded segment before (the second)");
+        Checks.sentence("Promise 9 (loaded)", "a loaded segment whose quality differs from that of the loaded segment before");
         SharedLink x = ran("net 4 1 8 100;player a buffer 3 1 10 20 30 40;", 1);
         Checks.due("the first", "0 -1 0", () -> x.loaded(0, 0, 0) + " " + x.loaded(0, 1, 0) + " " + x.player(0, 8));
         x.run(1);
@@ -125,7 +125,7 @@ public final class PlayersEdgesTest {
 
     /** The buffer is t at the time t; with 2 qualities quality 1 from 5 on. */
     private static void switches() {
-        Checks.sentence("8 switches");
+        Checks.sentence("Promise 8 (player)", "8 switches");
         SharedLink x = ran("net 1 60 10 100;link 1 9999;player a buffer 30 1 10 20;", 5);
         Checks.due("five alike", 0, () -> x.player(0, 8));
         x.setRate(0, 0);
@@ -145,7 +145,7 @@ public final class PlayersEdgesTest {
     }
 
     private static void sumOfQualities() {
-        Checks.sentence("9 the sum of the qualities of the segments that it has loaded");
+        Checks.sentence("Promise 8 (player)", "9 the sum of the qualities of the segments that it has loaded");
         SharedLink x = ran("net 1 60 10 100;link 1 9999;player a buffer 30 1 10 20 30 9000;", 9);
         Checks.due("0 0 0 1 1 2 2 2 3", 11, () -> x.player(0, 9));
         x.setRate(0, 100);
@@ -154,7 +154,7 @@ public final class PlayersEdgesTest {
     }
 
     private static void fixedProperties() {
-        Checks.sentence("12 its rule (0 lowest, 1 buffer, 2 rate, 3 mix), 13 its weight, 14 its segments, 15 its qualities, 16 its tick of join");
+        Checks.sentence("Promise 8 (player)", "12 its rule (0 lowest, 1 buffer, 2 rate, 3 mix), 13 its weight, 14 its segments, 15 its qualities, 16 its tick of join");
         SharedLink x = Checks.net("net 1 1 1 10;player a lowest 1 1 1;player b buffer 30 9 1 2 3 4;player c rate 2 2 1 2;player d mix 3 3 1 2 3;"
                 + "join b 999;join c 1;join d 0;");
         String[] due = {"0 1 1 1 0", "1 9 30 4 999", "2 2 2 2 1", "3 3 3 3 0"};
@@ -165,7 +165,7 @@ public final class PlayersEdgesTest {
     }
 
     private static void loadedNone() {
-        Checks.sentence("NONE if it has not loaded so many, or k is negative.");
+        Checks.sentence("Promise 9 (loaded)", "NONE if it has not loaded so many, or k is negative.");
         SharedLink x = Checks.net("net 1 60 200 100;player a lowest 30 1 100 200;");
         for (int count = 0; count <= 30; count++) {
             int loaded = count;
@@ -189,7 +189,7 @@ public final class PlayersEdgesTest {
 
     /** In the tick 0: 10 bytes; 1: 6 bytes; 2: 10 bytes; 3 and 4: 18 bytes. */
     private static void loadedParts() {
-        Checks.sentence("part: 0 its quality, 1 its size, 2 the tick in which it was asked for, 3 the tick in which it came");
+        Checks.sentence("Promise 9 (loaded)", "part: 0 its quality, 1 its size, 2 the tick in which it was asked for, 3 the tick in which it came");
         SharedLink x = ran(TWO, 6);
         Checks.due("segment 0", "0 10 0 0", () -> Checks.row(0, 3, part -> x.loaded(0, 0, part)));
         Checks.due("segment 1", "0 6 1 1", () -> Checks.row(0, 3, part -> x.loaded(0, 1, part)));
@@ -199,7 +199,7 @@ public final class PlayersEdgesTest {
     }
 
     private static void loadedPart() {
-        Checks.sentence("loaded: Throws IllegalArgumentException if part is out of range");
+        Checks.sentence("Promise 9 (loaded)", "Throws IllegalArgumentException if part is out of range");
         SharedLink x = ran(TWO, 6);
         for (int part : new int[] {-1, 4, Integer.MAX_VALUE, Integer.MIN_VALUE}) {
             for (int k : new int[] {0, 4, -1, 30}) {
@@ -209,7 +209,7 @@ public final class PlayersEdgesTest {
     }
 
     private static void loadedChecksFirst() {
-        Checks.sentence("loaded: Throws IndexOutOfBoundsException if there is no such player (checked first)");
+        Checks.sentence("Promise 9 (loaded)", "Throws IndexOutOfBoundsException if there is no such player (checked first)");
         SharedLink x = ran(TWO, 6);
         for (int player : NO_PLAYER_OF_TWO) {
             Checks.outOfBounds("loaded(" + player + ", 0, 0)", () -> x.loaded(player, 0, 0));
@@ -220,7 +220,7 @@ public final class PlayersEdgesTest {
     }
 
     private static void sizeOfLimits() {
-        Checks.sentence("sizeOf: Throws IllegalArgumentException if segment or quality is out of range");
+        Checks.sentence("Promise 10 (sizeOf)", "Throws IllegalArgumentException if segment or quality is out of range");
         SharedLink x = Checks.net("net 1 1 1 10;player a lowest 30 1 1 2 3 4;player b lowest 1 1 9;");
         Checks.due("the least and the greatest", "1 4 1 4", () -> x.sizeOf(0, 0, 0) + " " + x.sizeOf(0, 0, 3) + " " + x.sizeOf(0, 29, 0) + " "
                 + x.sizeOf(0, 29, 3));
@@ -237,7 +237,7 @@ public final class PlayersEdgesTest {
     }
 
     private static void sizeOfChecksFirst() {
-        Checks.sentence("sizeOf: Throws IndexOutOfBoundsException if there is no such player (checked first)");
+        Checks.sentence("Promise 10 (sizeOf)", "Throws IndexOutOfBoundsException if there is no such player (checked first)");
         SharedLink x = Checks.net(TWO);
         for (int player : NO_PLAYER_OF_TWO) {
             Checks.outOfBounds("sizeOf(" + player + ", 0, 0)", () -> x.sizeOf(player, 0, 0));

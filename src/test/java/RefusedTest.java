@@ -17,7 +17,7 @@ public final class RefusedTest {
     private static final String BEHIND = "net 3 2 9 50;link 4 25;player zed rate 3 2 10 20;";
 
     public static void main(String[] args) {
-        Checks.sentence("A method that throws an exception changes nothing.");
+        Checks.sentence("CHANGES", "A method that throws an exception changes nothing.");
         text();
         players();
         outlook();
@@ -190,7 +190,7 @@ public final class RefusedTest {
 
     /** What answers NONE without an exception leaves all as it was, too. */
     private static void answersOfNone() {
-        Checks.sentence("Returned if there is no result.");
+        Checks.sentence("The constants", "Returned if there is no result.");
         refused("oracle(0, -1)", "-1", x -> x.oracle(0, -1));
         refused("oracle(0, 30)", "-1", x -> x.oracle(0, 30));
         refused("oracle of one that has quit", "-1", x -> x.oracle(2, 0));

@@ -27,7 +27,7 @@ public final class SumsEdgesTest {
     // ---- promise 18
 
     private static void fairnessOfNoByte() {
-        Checks.sentence("1.0 if no player got a byte.");
+        Checks.sentence("Promise 18 (fairness)", "1.0 if no player got a byte.");
         Checks.due("without players", 1.0, () -> new SharedLink().fairness());
         SharedLink x = Checks.net("net 1 1 1 10;link 1 0;player a lowest 9 9 99;player b lowest 9 1 99;");
         Checks.due("at first", 1.0, x::fairness);
@@ -45,7 +45,7 @@ public final class SumsEdgesTest {
     }
 
     private static void fairnessByWeights() {
-        Checks.sentence("with b the bytes that a player got, divided by its weight (as doubles)");
+        Checks.sentence("Promise 18 (fairness)", "with b the bytes that a player got, divided by its weight (as doubles)");
         String two = "net 1 1 1 10;link 1 10;player a lowest 9 1 99;player b lowest 9 9 99;";
         SharedLink x = ran(two, 1);
         Checks.due("1 by 1 and 9 by 9", "1 9 1.0", () -> Checks.row(0, 1, p -> x.player(p, 10)) + " " + x.fairness());
@@ -57,7 +57,7 @@ public final class SumsEdgesTest {
     }
 
     private static void fairnessOfPlayers() {
-        Checks.sentence("divided by (the number of players * the sum of the squares of all b)");
+        Checks.sentence("Promise 18 (fairness)", "divided by (the number of players * the sum of the squares of all b)");
         String all = "net 1 1 1 10;link 1 30;player a lowest 9 1 99;player b lowest 9 1 99;player c lowest 9 1 99;player d lowest 9 1 99;";
         Checks.due("one of four has joined", 0.25, () -> ran(all + "join b 9;join c 9;join d 9;", 1).fairness());
         Checks.due("two of four", 0.5, () -> ran(all + "join b 9;join c 9;", 1).fairness());
@@ -69,7 +69,7 @@ public final class SumsEdgesTest {
     }
 
     private static void fairnessInOrder() {
-        Checks.sentence("as doubles, the sums from 0.0 on in ascending order");
+        Checks.sentence("Promise 18 (fairness)", "as doubles, the sums from 0.0 on in ascending order");
         SharedLink x = Checks.net("net 1 1 1 10;link 1 9;link 1 7;link 1 5;player a lowest 9 3 99;player b lowest 9 7 98;player c lowest 9 9 97;"
                 + "player d lowest 9 6 95;join a 2;join c 1;");
         for (int tick = 0; tick < 30; tick++) {
@@ -88,7 +88,7 @@ public final class SumsEdgesTest {
     // ---- promise 19
 
     private static void meanWithoutSegments() {
-        Checks.sentence("0.0 without segments.");
+        Checks.sentence("Promise 19 (meanQuality)", "0.0 without segments.");
         SharedLink x = Checks.net("net 1 1 1 10;link 1 5;player a lowest 9 9 9;");
         Checks.due("at first", 0.0, () -> x.meanQuality(0));
         x.run(1);
@@ -101,7 +101,7 @@ public final class SumsEdgesTest {
 
     /** The buffer is t at the time t; the qualities are 0 0 0 1 1 2 2 2 3 3. */
     private static void meanAsDouble() {
-        Checks.sentence("the sum of the qualities, converted to double, divided by their number");
+        Checks.sentence("Promise 19 (meanQuality)", "the sum of the qualities, converted to double, divided by their number");
         SharedLink x = Checks.net("net 1 60 10 100;link 1 9999;player a buffer 30 1 1 2 3 4;");
         double[] sums = {0, 0, 0, 1, 2, 4, 6, 8, 11, 14};
         for (int i = 0; i < sums.length; i++) {
@@ -112,7 +112,7 @@ public final class SumsEdgesTest {
     }
 
     private static void meanNobody() {
-        Checks.sentence("meanQuality: Throws IndexOutOfBoundsException if there is no such player");
+        Checks.sentence("Promise 19 (meanQuality)", "Throws IndexOutOfBoundsException if there is no such player");
         SharedLink x = Checks.net("net 1 1 1 10;player a lowest 9 9 9;player b lowest 1 1 1;");
         for (int player : new int[] {-1, 2, 3, 4, Integer.MAX_VALUE, Integer.MIN_VALUE}) {
             Checks.outOfBounds("meanQuality(" + player + ")", () -> x.meanQuality(player));
@@ -125,7 +125,7 @@ public final class SumsEdgesTest {
 
     /** What isWhole says is seen from outside, too. */
     private static void wholeBytes() {
-        Checks.sentence("the bytes that all players got are those that went through the link, those of each player are the sizes of the segments"
+        Checks.sentence("Promise 20 (isWhole)", "the bytes that all players got are those that went through the link, those of each player are the sizes of the segments"
                 + " that it loaded and what it has of the one that it loads, and its ticks played and its buffer together are the segments"
                 + " that it loaded times length");
         SharedLink x = Checks.net("net 3 2 9 70;link 3 20;link 2 3;vary 50 133;player a mix 9 1 10 20 40;player b rate 9 2 30;join b 4;");
@@ -154,7 +154,7 @@ public final class SumsEdgesTest {
     }
 
     private static void wholeEverywhere() {
-        Checks.sentence("(It always is so.)");
+        Checks.sentence("Promise 20 (isWhole)", "(It always is so.)");
         Checks.due("a new object", true, () -> new SharedLink().isWhole());
         SharedLink x = Checks.net("net 2 2 4 100;link 1 10;player a lowest 3 1 35;player b buffer 9 1 5 6;join b 3;");
         Checks.due("at 0", true, x::isWhole);
@@ -178,7 +178,7 @@ public final class SumsEdgesTest {
     // ---- promise 21
 
     private static void accountWhat() {
-        Checks.sentence("account: Throws IllegalArgumentException if what is out of range");
+        Checks.sentence("Promise 21 (account)", "Throws IllegalArgumentException if what is out of range");
         SharedLink x = ran("net 1 1 1 10;link 1 10;player a lowest 2 1 15;", 3);
         for (int what : new int[] {-1, 4, 5, Integer.MAX_VALUE, Integer.MIN_VALUE}) {
             Checks.illegalArgument("account(" + what + ")", () -> x.account(what));
@@ -188,7 +188,7 @@ public final class SumsEdgesTest {
     }
 
     private static void accountUnused() {
-        Checks.sentence("0 bytes that went through the link, 1 bytes of its rates that were not used");
+        Checks.sentence("Promise 21 (account)", "0 bytes that went through the link, 1 bytes of its rates that were not used");
         SharedLink x = Checks.net("net 1 60 9 10;link 1 10;link 1 0;link 1 9999;player a lowest 2 1 10;join a 3;");
         String[] due = {"0 10", "0 10", "0 10009", "10 10009", "10 10009", "20 19998", "20 20008"};
         for (String sums : due) {
@@ -203,7 +203,7 @@ public final class SumsEdgesTest {
     }
 
     private static void accountStalled() {
-        Checks.sentence("2 ticks stalled of all players");
+        Checks.sentence("Promise 21 (account)", "2 ticks stalled of all players");
         SharedLink x = ran("net 1 1 1 10;link 1 20;player a lowest 9 1 10;player b lowest 9 1 10;", 1);
         x.setRate(0, 0);
         x.run(3);
@@ -214,7 +214,7 @@ public final class SumsEdgesTest {
     }
 
     private static void accountCame() {
-        Checks.sentence("3 segments that came");
+        Checks.sentence("Promise 21 (account)", "3 segments that came");
         SharedLink x = Checks.net("net 1 60 9 10;link 1 19;player a lowest 9 1 10;player b lowest 9 1 10;");
         // of 19 bytes a gets 10 and b 9; in every second tick b needs a single byte for the segment before
         int[] due = {1, 3, 4, 6};
@@ -228,7 +228,7 @@ public final class SumsEdgesTest {
     }
 
     private static void accountSinceParse() {
-        Checks.sentence("Returns a sum since parse.");
+        Checks.sentence("Promise 21 (account)", "Returns a sum since parse.");
         SharedLink x = ran("net 1 1 1 10;link 1 10;player a lowest 9 1 15;", 5);
         Checks.due("sums", true, () -> x.account(0) > 0 && x.account(1) > 0 && x.account(2) > 0 && x.account(3) > 0);
         String before = Checks.row(0, 3, x::account);

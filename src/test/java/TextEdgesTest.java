@@ -79,7 +79,7 @@ public final class TextEdgesTest {
     // ---- TEXT
 
     private static void textBytes() {
-        Checks.sentence("A net is described by a text of at most 600 bytes.");
+        Checks.sentence("TEXT", "A net is described by a text of at most 600 bytes.");
         String last = "player last mix 1 1 1;";
         String text = HEAD + " ".repeat(600 - HEAD.length() - last.length()) + last;
         SharedLink x = new SharedLink();
@@ -93,7 +93,7 @@ public final class TextEdgesTest {
     }
 
     private static void separators() {
-        Checks.sentence("Spaces (byte 32) and line feeds (byte 10) separate tokens and are otherwise ignored.");
+        Checks.sentence("TEXT", "Spaces (byte 32) and line feeds (byte 10) separate tokens and are otherwise ignored.");
         good("net 1 1 1 10;");
         good("net\n1\n1\n1\n10\n;\n");
         good(" \n\n  net  1\n 1 \n1   10 ; \n");
@@ -108,7 +108,7 @@ public final class TextEdgesTest {
     }
 
     private static void wordRuns() {
-        Checks.sentence("a word (a maximal run of letters a to z, 1 to 8 letters)");
+        Checks.sentence("TEXT", "a word (a maximal run of letters a to z, 1 to 8 letters)");
         good(HEAD + "player a mix 1 1 1;");
         good(HEAD + "player z mix 1 1 1;");
         good(HEAD + "player abcdefgh mix 1 1 1;");
@@ -122,7 +122,7 @@ public final class TextEdgesTest {
     }
 
     private static void numberRuns() {
-        Checks.sentence("a number (a maximal run of digits, 1 to 4 digits)");
+        Checks.sentence("TEXT", "a number (a maximal run of digits, 1 to 4 digits)");
         good(HEAD + "link 1 0;");
         good(HEAD + "link 1 9999;");
         good(HEAD + "link 0001 0000;");
@@ -139,7 +139,7 @@ public final class TextEdgesTest {
 
     /** Between "net" and "1 1 1 10;" a letter makes another word, a digit another number, any other byte an invalid token. */
     private static void allBytes() {
-        Checks.sentence("A longer run, and any other byte, is an invalid token.");
+        Checks.sentence("TEXT", "A longer run, and any other byte, is an invalid token.");
         for (int b = 0; b < 256; b++) {
             String text = "net" + (char) b + "1 1 1 10;";
             if (b == 32 || b == 10 || b == '0' || b == '1') {
@@ -157,7 +157,7 @@ public final class TextEdgesTest {
     }
 
     private static void grammar() {
-        Checks.sentence("net = \"net\" length start full safety \";\" { statement \";\" }");
+        Checks.sentence("TEXT", "net = \"net\" length start full safety \";\" { statement \";\" }");
         good(HEAD);
         read("", 1, 0);
         read("net;", 1, 3);
@@ -171,7 +171,7 @@ public final class TextEdgesTest {
         read(HEAD + HEAD, 1, 13);
         read(HEAD + "7;", 1, 13);
         read(HEAD + "mix;", 1, 13);
-        Checks.sentence("statement = \"link\" ticks rate | \"vary\" percent { percent } | \"join\" player tick");
+        Checks.sentence("TEXT", "statement = \"link\" ticks rate | \"vary\" percent { percent } | \"join\" player tick");
         read(HEAD + "link;", 1, 17);
         read(HEAD + "link 1;", 1, 19);
         read(HEAD + "link 1 1 1;", 1, 22);
@@ -183,7 +183,7 @@ public final class TextEdgesTest {
         read(ONE + "join a;", 1, 38);
         read(ONE + "join a 1 1;", 1, 41);
         read(ONE + "join 1 a;", 1, 37);
-        Checks.sentence("\"player\" name rule segments weight size { size }");
+        Checks.sentence("TEXT", "\"player\" name rule segments weight size { size }");
         read(HEAD + "player;", 1, 19);
         read(HEAD + "player a;", 1, 21);
         read(HEAD + "player a mix;", 1, 25);
@@ -191,7 +191,7 @@ public final class TextEdgesTest {
         read(HEAD + "player a mix 1 1;", 1, 29);
         read(HEAD + "player a mix 1 1 1 b;", 1, 32);
         read(HEAD + "player a 1 1 1;", 1, 22);
-        Checks.sentence("rule = \"lowest\" | \"buffer\" | \"rate\" | \"mix\"");
+        Checks.sentence("TEXT", "rule = \"lowest\" | \"buffer\" | \"rate\" | \"mix\"");
         SharedLink x = Checks.net(HEAD + "player d mix 1 1 1;player c rate 1 1 1;player b buffer 1 1 1;player a lowest 1 1 1;");
         Checks.due("the rules", "3 2 1 0", () -> Checks.row(0, 3, p -> x.player(p, 12)));
         read(HEAD + "player a mi 1 1 1;", 1, 22);
@@ -202,7 +202,7 @@ public final class TextEdgesTest {
     }
 
     private static void names() {
-        Checks.sentence("name is any word, player a word that is the name of an earlier player");
+        Checks.sentence("TEXT", "name is any word, player a word that is the name of an earlier player");
         SharedLink x = Checks.net(HEAD + "player net mix 1 1 1;player join rate 1 1 1;player player mix 1 1 1;player vary mix 1 1 1;"
                 + "join player 7;join join 8;join net 9;");
         Checks.due("the ticks of join", "9 8 7 0", () -> Checks.row(0, 3, p -> x.player(p, 16)));
@@ -211,7 +211,7 @@ public final class TextEdgesTest {
     }
 
     private static void ranges() {
-        Checks.sentence("length is 1 to 20, start 1 to 60, full 1 to 200, safety 10 to 100");
+        Checks.sentence("TEXT", "length is 1 to 20, start 1 to 60, full 1 to 200, safety 10 to 100");
         range("net ", 1, 20, " 1 1 10;");
         range("net 1 ", 1, 60, " 1 10;");
         range("net 1 1 ", 1, 200, " 10;");
@@ -220,14 +220,14 @@ public final class TextEdgesTest {
         Checks.due("the most of each", "20 60 200 100", () -> Checks.row(2, 5, x::size));
         SharedLink y = Checks.net("net 1 1 1 10;");
         Checks.due("the least of each", "1 1 1 10", () -> Checks.row(2, 5, y::size));
-        Checks.sentence("ticks 1 to 200, rate 0 to 9999, percent 50 to 200, tick 0 to 999");
+        Checks.sentence("TEXT", "ticks 1 to 200, rate 0 to 9999, percent 50 to 200, tick 0 to 999");
         range(HEAD + "link ", 1, 200, " 1;");
         range(HEAD + "link 1 ", 0, 9999, ";");
         range(HEAD + "vary ", 50, 200, ";");
         range(HEAD + "vary 50 ", 50, 200, ";");
         range(HEAD + "vary 50 50 50 ", 50, 200, ";");
         range(ONE + "join a ", 0, 999, ";");
-        Checks.sentence("segments 1 to 30, weight 1 to 9, size 1 to 9999");
+        Checks.sentence("TEXT", "segments 1 to 30, weight 1 to 9, size 1 to 9999");
         range(HEAD + "player a mix ", 1, 30, " 1 1;");
         range(HEAD + "player a mix 1 ", 1, 9, " 1;");
         range(HEAD + "player a mix 1 1 ", 1, 9999, ";");
@@ -238,7 +238,7 @@ public final class TextEdgesTest {
     }
 
     private static void growingSizes() {
-        Checks.sentence("each size of a player is greater than the one before");
+        Checks.sentence("TEXT", "each size of a player is greater than the one before");
         good(HEAD + "player a mix 1 1 1 2;");
         good(HEAD + "player a mix 1 1 1 9999;");
         good(HEAD + "player a mix 1 1 9996 9997 9998 9999;");
@@ -251,7 +251,7 @@ public final class TextEdgesTest {
     }
 
     private static void mostOfEach() {
-        Checks.sentence("There are at most 8 links, 4 percents, 4 players and 4 sizes of a player.");
+        Checks.sentence("TEXT", "There are at most 8 links, 4 percents, 4 players and 4 sizes of a player.");
         SharedLink x = Checks.net(FOUR + "link 1 1;".repeat(8) + "vary 50 50 50 50;");
         Checks.due("players, pieces and percents", "4 8 4", () -> x.size(0) + " " + x.size(1) + " " + x.size(6));
         SharedLink y = Checks.net(HEAD + "player a mix 1 1 1 2 3 4;player b mix 1 1 1 2 3 4;");
@@ -265,7 +265,7 @@ public final class TextEdgesTest {
     }
 
     private static void onceOnly() {
-        Checks.sentence("\"vary\" can occur once, \"join\" once for each player.");
+        Checks.sentence("TEXT", "\"vary\" can occur once, \"join\" once for each player.");
         good(HEAD + "vary 50 50;");
         read(HEAD + "vary 50;vary 50;", 2, 21);
         good(FOUR + "join a 1;join b 1;join c 1;join d 1;");
@@ -275,7 +275,7 @@ public final class TextEdgesTest {
     }
 
     private static void code1() {
-        Checks.sentence("1: an invalid token, a token that the grammar does not allow at this place, or a text that ends too early.");
+        Checks.sentence("TEXT", "1: an invalid token, a token that the grammar does not allow at this place, or a text that ends too early.");
         read(HEAD + "link 1 ?;", 1, 20);
         read(HEAD + "link 1 a;", 1, 20);
         read(HEAD + "link 1 ;", 1, 20);
@@ -287,7 +287,7 @@ public final class TextEdgesTest {
     }
 
     private static void code2() {
-        Checks.sentence("2: a name that an earlier player has; the word of a second vary; the player of a join who has one already.");
+        Checks.sentence("TEXT", "2: a name that an earlier player has; the word of a second vary; the player of a join who has one already.");
         read(ONE + "player a mix 1 1 1;", 2, 39);
         read(HEAD + "player abcdefgh mix 1 1 1;player abcdefgh mix 1 1 1;", 2, 46);
         good(HEAD + "player abcdefgh mix 1 1 1;player abcdefgi mix 1 1 1;player bcdefgh mix 1 1 1;");
@@ -297,7 +297,7 @@ public final class TextEdgesTest {
     }
 
     private static void code3() {
-        Checks.sentence("3: a number out of its range.");
+        Checks.sentence("TEXT", "3: a number out of its range.");
         read("net 0 0 0 0;", 3, 4);
         read("net 9999 1 1 10;", 3, 4);
         read(HEAD + "link 201 0;", 3, 18);
@@ -306,7 +306,7 @@ public final class TextEdgesTest {
     }
 
     private static void code4() {
-        Checks.sentence("4: a player that is no earlier one.");
+        Checks.sentence("TEXT", "4: a player that is no earlier one.");
         read(HEAD + "join a 1;", 4, 18);
         read(HEAD + "join a", 4, 18);
         read(HEAD + "join a 1;player a mix 1 1 1;", 4, 18);
@@ -317,7 +317,7 @@ public final class TextEdgesTest {
     }
 
     private static void code5() {
-        Checks.sentence("5: the first word of the statement of a ninth link or a fifth player; a fifth percent or size.");
+        Checks.sentence("TEXT", "5: the first word of the statement of a ninth link or a fifth player; a fifth percent or size.");
         String eight = HEAD + "link 1 1;".repeat(8);
         read(eight + "link", 5, eight.length());
         read(eight + "link 0 0;", 5, eight.length());
@@ -331,7 +331,7 @@ public final class TextEdgesTest {
     }
 
     private static void code6() {
-        Checks.sentence("6: a size that is not greater than the one before.");
+        Checks.sentence("TEXT", "6: a size that is not greater than the one before.");
         good(HEAD + "player a mix 1 1 3 4;");
         read(HEAD + "player a mix 1 1 3 3;", 6, 32);
         read(HEAD + "player a mix 1 1 3 1;", 6, 32);
@@ -339,7 +339,7 @@ public final class TextEdgesTest {
     }
 
     private static void smallestPosition() {
-        Checks.sentence("The error with the smallest position is reported.");
+        Checks.sentence("TEXT", "The error with the smallest position is reported.");
         read("net 1 1 1 101;link 0 0;", 3, 10);
         read(HEAD + "player a mix 1 1 5 5;link 0 1;?", 6, 32);
         read(HEAD + "link 1 1;vary 50;vary 50;?", 2, 30);
@@ -349,7 +349,7 @@ public final class TextEdgesTest {
     }
 
     private static void smallestCode() {
-        Checks.sentence("If several codes apply at one position, the smallest is reported.");
+        Checks.sentence("TEXT", "If several codes apply at one position, the smallest is reported.");
         read(HEAD + "vary 50 50 50 50 201;", 3, 30);
         read(HEAD + "vary 50 50 50 50 49;", 3, 30);
         read(HEAD + "vary 50 50 50 50 50;", 5, 30);
@@ -362,7 +362,7 @@ public final class TextEdgesTest {
     }
 
     private static void positionOfToken() {
-        Checks.sentence("The position of an error is the index of the first byte of its token");
+        Checks.sentence("TEXT", "The position of an error is the index of the first byte of its token");
         read("?", 1, 0);
         read("abcdefghijkl", 1, 0);
         read("  \n abcdefghijkl", 1, 4);
@@ -373,7 +373,7 @@ public final class TextEdgesTest {
     }
 
     private static void positionOfEnd() {
-        Checks.sentence("if the text ends too early, it is the length of the text");
+        Checks.sentence("TEXT", "if the text ends too early, it is the length of the text");
         read("", 1, 0);
         read("\n", 1, 1);
         read("net", 1, 3);
@@ -392,7 +392,7 @@ public final class TextEdgesTest {
     // ---- promises 1 to 7
 
     private static void newObject() {
-        Checks.sentence("Creates a net as with the text \"net 1 1 1 10;\", with an empty input buffer.");
+        Checks.sentence("Promise 1 (A new object)", "Creates a net as with the text \"net 1 1 1 10;\", with an empty input buffer.");
         SharedLink x = new SharedLink();
         SharedLink y = Checks.net(HEAD);
         Checks.due("as with the text", Checks.state(y), () -> Checks.state(x));
@@ -409,7 +409,7 @@ public final class TextEdgesTest {
     }
 
     private static void appendOrder() {
-        Checks.sentence("the four bytes of each argument, the most significant byte first");
+        Checks.sentence("Promise 2 (append)", "the four bytes of each argument, the most significant byte first");
         SharedLink x = new SharedLink();
         x.append(0x6e657431, 0x32203334, 0x20353620, 0x37383b20, 0x20202020);
         Checks.due("net12 34 56 78;", 0, () -> x.parse(20));
@@ -424,7 +424,7 @@ public final class TextEdgesTest {
     }
 
     private static void appendLength() {
-        Checks.sentence("Returns the new length of the buffer");
+        Checks.sentence("Promise 2 (append)", "Returns the new length of the buffer");
         SharedLink x = new SharedLink();
         for (int length = 20; length <= 600; length += 20) {
             Checks.due("append", length, () -> x.append(LEAST, -1, 0, 1, MOST));
@@ -437,7 +437,7 @@ public final class TextEdgesTest {
     }
 
     private static void appendBeyond() {
-        Checks.sentence("NONE, with nothing appended, if it would exceed 600.");
+        Checks.sentence("Promise 2 (append)", "NONE, with nothing appended, if it would exceed 600.");
         SharedLink x = new SharedLink();
         Checks.put(x, HEAD + " ".repeat(600 - 13 - 8) + "link 1 7");
         Checks.due("beyond 600", -1, () -> x.append(0x3b3b3b3b, 0x3b3b3b3b, 0x3b3b3b3b, 0x3b3b3b3b, 0x3b3b3b3b));
@@ -453,7 +453,7 @@ public final class TextEdgesTest {
     }
 
     private static void parseFirstBytes() {
-        Checks.sentence("Parses the first length bytes of the input buffer as a text.");
+        Checks.sentence("Promise 3 (parse)", "Parses the first length bytes of the input buffer as a text.");
         String text = "net 1 1 1 10;link 1 77;?";
         int[][] due = {{0, 1, 0}, {12, 1, 12}, {13, 0, -1}, {14, 1, 13}, {17, 1, 17}, {20, 1, 20}, {21, 1, 21}, {22, 1, 22},
             {23, 0, -1}, {24, 1, 23}};
@@ -467,11 +467,12 @@ public final class TextEdgesTest {
     }
 
     private static void parseOutOfRange() {
-        Checks.sentence("length: 0 to the length of the buffer; Throws IllegalArgumentException if length is out of range");
+        Checks.sentence("Promise 3 (parse)", "Throws IllegalArgumentException if length is out of range");
         SharedLink x = new SharedLink();
         for (int length : new int[] {-1, 1, 20, 600, MOST, LEAST}) {
             Checks.illegalArgument("parse(" + length + ") of an empty buffer", () -> x.parse(length));
         }
+        Checks.sentence("Promise 3 (parse)", "length: 0 to the length of the buffer");
         Checks.due("parse(0) of an empty buffer", 1, () -> x.parse(0));
         for (int fill = 20; fill <= 600; fill += 580) {
             int filled = fill;
@@ -486,38 +487,43 @@ public final class TextEdgesTest {
     }
 
     private static void parseReplaces() {
-        Checks.sentence("On success the described net replaces the current one.");
-        String text = "net 3 2 9 50;player b rate 3 2 10 20;link 4 25;join b 2;";
-        SharedLink x = Checks.net("net 1 60 10 100;link 3 5000;link 2 6000;vary 90 110;player a buffer 30 1 30 60 90;player b buffer 9 2 30 31;"
+        Checks.sentence("Promise 3 (parse)", "On success the described net replaces the current one.");
+        String text = "net 1 60 200 50;player b lowest 12 2 10 20;link 4 25;join b 2;";
+        SharedLink x = Checks.net("net 1 60 20 100;link 3 5000;link 2 6000;vary 90 110;player a buffer 30 1 30 60 90;player b buffer 9 2 30 31;"
                 + "join a 3;join b 9;");
         x.run(15);
         x.setRate(0, 0);
         x.setRate(1, 0);
-        x.setRule(1, 0);
-        x.setWeight(1, 9);
-        x.quit(0);
+        x.setRule(0, 2);
+        x.setWeight(0, 9);
+        x.quit(1);
         x.run(1);
         x.saveSnapshot(0);
         x.saveSnapshot(1);
-        Checks.due("the first net: sums of qualities, missing bytes", "9 1 0 27", () -> x.player(0, 9) + " " + x.player(1, 9) + " "
-                + x.player(0, 4) + " " + x.player(1, 4));
+        // a has asked with the buffers 0 to 12, for the qualities buffer * 3 / 20; then by its rate of 66 for 90 percent of 60
+        Checks.due("the first net: qualities, missing bytes", "5 1 54", () -> x.player(0, 9) + " " + x.player(0, 3) + " " + x.player(0, 4));
         Checks.due("the second net", 0, () -> Checks.parse(x, text));
         SharedLink y = Checks.net(text);
         Checks.due("as in a new object", Checks.state(y), () -> Checks.state(x));
-        Checks.sentence("A successful parse clears the undo history and empties both slots.");
+        Checks.sentence("CHANGES", "A successful parse clears the undo history and empties both slots.");
         Checks.due("no change to undo", "0 -1", () -> x.size(10) + " " + x.undo());
         Checks.illegalState("slot 0", () -> x.restoreSnapshot(0));
         Checks.illegalState("slot 1", () -> x.restoreSnapshot(1));
         Checks.due("no earlier snapshot", "false false", () -> x.saveSnapshot(0) + " " + x.saveSnapshot(1));
-        x.run(7);
-        y.run(7);
-        Checks.due("as in a new object later on", Checks.state(y), () -> Checks.state(x));
+        Checks.sentence("Promise 3 (parse)", "On success the described net replaces the current one.");
+        for (int time = 1; time <= 16; time++) {
+            x.run(1);
+            y.run(1);
+            String due = Checks.row(0, 16, what -> y.player(0, what));
+            Checks.due("as in a new object at " + time, due, () -> Checks.row(0, 16, what -> x.player(0, what)));
+        }
+        Checks.due("all as in a new object", Checks.state(y), () -> Checks.state(x));
         Checks.due("the same text again", 0, () -> Checks.parse(x, text));
         Checks.due("is as new", Checks.state(Checks.net(text)), () -> Checks.state(x));
     }
 
     private static void parseErrorKeeps() {
-        Checks.sentence("On a parse error nothing changes except that the whole buffer is emptied");
+        Checks.sentence("Promise 3 (parse)", "On a parse error nothing changes except that the whole buffer is emptied");
         SharedLink x = Checks.net("net 2 2 8 100;link 3 10;vary 90 110;player a mix 9 1 30 60 90;");
         x.run(5);
         x.saveSnapshot(1);
@@ -538,7 +544,7 @@ public final class TextEdgesTest {
     }
 
     private static void emptyAfterSuccess() {
-        Checks.sentence("it is also empty after a success");
+        Checks.sentence("Promise 3 (parse)", "it is also empty after a success");
         SharedLink x = new SharedLink();
         Checks.put(x, HEAD + " ".repeat(587));
         Checks.due("the first 13 of 600 bytes", 0, () -> x.parse(13));
@@ -549,7 +555,7 @@ public final class TextEdgesTest {
     }
 
     private static void errorPosition() {
-        Checks.sentence("Returns the position of the parse error of the last call of parse that did not throw an exception.");
+        Checks.sentence("Promise 4 (errorPosition)", "Returns the position of the parse error of the last call of parse that did not throw an exception.");
         SharedLink x = new SharedLink();
         Checks.due("an error", 3, () -> Checks.parse(x, "net 0"));
         Checks.due("at", 4, x::errorPosition);
@@ -567,7 +573,7 @@ public final class TextEdgesTest {
     }
 
     private static void errorPositionNone() {
-        Checks.sentence("NONE if that call succeeded or there was none.");
+        Checks.sentence("Promise 4 (errorPosition)", "NONE if that call succeeded or there was none.");
         SharedLink x = new SharedLink();
         Checks.due("there was none", -1, x::errorPosition);
         Checks.illegalArgument("an exception", () -> x.parse(1));
@@ -581,7 +587,7 @@ public final class TextEdgesTest {
     }
 
     private static void sizeOutOfRange() {
-        Checks.sentence("size: Throws IllegalArgumentException if what is out of range");
+        Checks.sentence("Promise 5 (size)", "Throws IllegalArgumentException if what is out of range");
         SharedLink x = Checks.net("net 2 3 9 50;link 1 10;vary 50 60 70;player a mix 2 3 40 50;");
         for (int what : new int[] {-1, 11, 12, MOST, LEAST}) {
             Checks.illegalArgument("size(" + what + ")", () -> x.size(what));
@@ -590,7 +596,7 @@ public final class TextEdgesTest {
     }
 
     private static void sizeOfLoading() {
-        Checks.sentence("8 players that load a segment (but those that have quit)");
+        Checks.sentence("Promise 5 (size)", "8 players that load a segment (but those that have quit)");
         SharedLink x = Checks.net("net 2 1 9 50;link 1 0;player a mix 2 3 40;player b mix 2 3 40;player c mix 2 3 40;join c 1;");
         Checks.due("none has asked", 0, () -> x.size(8));
         x.run(1);
@@ -605,7 +611,7 @@ public final class TextEdgesTest {
     }
 
     private static void sizeOfDone() {
-        Checks.sentence("9 players that are done");
+        Checks.sentence("Promise 5 (size)", "9 players that are done");
         SharedLink x = Checks.net("net 2 1 9 50;player a mix 1 1 1;player b mix 1 1 1;player c mix 2 1 1;player d mix 1 1 1;join d 2;");
         x.quit(1);
         x.run(1);
@@ -619,7 +625,7 @@ public final class TextEdgesTest {
     }
 
     private static void sizeOfChanges() {
-        Checks.sentence("10 changes that can be undone");
+        Checks.sentence("Promise 5 (size)", "10 changes that can be undone");
         SharedLink x = Checks.net(ONE);
         Checks.due("none", 0, () -> x.size(10));
         for (int i = 1; i <= 12; i++) {
@@ -637,7 +643,7 @@ public final class TextEdgesTest {
     }
 
     private static void findName() {
-        Checks.sentence("Finds the player whose name the input buffer contains; bytes 32 may stand behind it");
+        Checks.sentence("Promise 6 (find)", "Finds the player whose name the input buffer contains; bytes 32 may stand behind it");
         SharedLink x = Checks.net(HEAD + "player ab mix 1 1 1;player abcdefgh mix 1 1 1;player b mix 1 1 1;player a mix 1 1 1;");
         Checks.due("ab", 0, () -> Checks.find(x, "ab"));
         Checks.due("abcdefgh", 1, () -> Checks.find(x, "abcdefgh"));
@@ -651,7 +657,7 @@ public final class TextEdgesTest {
     }
 
     private static void findNone() {
-        Checks.sentence("with anything else in the buffer there is none");
+        Checks.sentence("Promise 6 (find)", "with anything else in the buffer there is none");
         SharedLink x = Checks.net(HEAD + "player ab mix 1 1 1;player abcdefgh mix 1 1 1;");
         Checks.due("an empty buffer", -1, x::find);
         String[] names = {" ", " ab", "\nab", "ab\n", "ab \n", "ab\u0000", "a", "abc", "b", "ab;", "ab1", "1ab", "ab ab", "a b", "AB",
@@ -662,13 +668,14 @@ public final class TextEdgesTest {
         Checks.due("without players", -1, () -> Checks.find(new SharedLink(), "ab"));
         for (int b = 0; b < 256; b++) {
             char sign = (char) b;
-            Checks.due("the byte " + b + " behind it", b == 32 ? 0 : -1, () -> Checks.find(x, "ab" + sign));
-            Checks.due("the byte " + b + " before it", -1, () -> Checks.find(x, sign + "ab"));
+            SharedLink y = Checks.net(HEAD + "player ab mix 1 1 1;");
+            Checks.due("the byte " + b + " behind it", b == 32 ? 0 : -1, () -> Checks.find(y, "ab" + sign));
+            Checks.due("the byte " + b + " before it", -1, () -> Checks.find(y, sign + "ab"));
         }
     }
 
     private static void findEmpties() {
-        Checks.sentence("The buffer is empty afterwards.");
+        Checks.sentence("Promise 6 (find)", "The buffer is empty afterwards.");
         SharedLink x = Checks.net(ONE);
         Checks.due("a name", 0, () -> Checks.find(x, "a"));
         Checks.illegalArgument("no byte", () -> x.parse(1));
@@ -678,7 +685,7 @@ public final class TextEdgesTest {
     }
 
     private static void rateAgain() {
-        Checks.sentence("The pieces follow one another in the order of the text, and then again from the first one on.");
+        Checks.sentence("THE LINK", "The pieces follow one another in the order of the text, and then again from the first one on.");
         SharedLink x = Checks.net(HEAD + "link 1 5;link 200 6;link 2 0;");
         int[] ticks = {0, 1, 200, 201, 202, 203, 204, 403, 404, 405, 406, 407};
         int[] due = {5, 6, 6, 0, 0, 5, 6, 6, 0, 0, 5, 6};
@@ -699,7 +706,7 @@ public final class TextEdgesTest {
     }
 
     private static void rateWithoutPieces() {
-        Checks.sentence("Without pieces the rate is 100.");
+        Checks.sentence("THE LINK", "Without pieces the rate is 100.");
         SharedLink x = Checks.net(HEAD);
         for (int tick : new int[] {0, 1, 1999, 2000, MOST}) {
             Checks.due("rate(" + tick + ")", 100, () -> x.rate(tick));
@@ -709,7 +716,7 @@ public final class TextEdgesTest {
     }
 
     private static void rateNegative() {
-        Checks.sentence("Throws IllegalArgumentException if tick is negative");
+        Checks.sentence("Promise 7 (rate)", "Throws IllegalArgumentException if tick is negative");
         SharedLink x = Checks.net(HEAD + "link 1 5;link 2 7;");
         Checks.due("rate(0)", 5, () -> x.rate(0));
         Checks.illegalArgument("rate(-1)", () -> x.rate(-1));

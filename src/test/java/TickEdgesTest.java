@@ -1,6 +1,8 @@
 /** SEGMENTS, PLAYERS with the rules, A TICK and A FORECAST: each sentence that names a boundary case has a test of its own. */
 public final class TickEdgesTest {
     public static void main(String[] args) {
+        divisions();
+        numbers();
         segmentLasts();
         segmentAtLeastOne();
         percentsAgain();
@@ -57,10 +59,32 @@ public final class TickEdgesTest {
         return x;
     }
 
+    private static void divisions() {
+        Checks.sentence("Terms", "all divisions truncate");
+        SharedLink x = Checks.net("net 1 60 10 100;vary 199;link 1 8;player a buffer 30 1 3 4;player b lowest 30 1 9;player c lowest 30 1 9;");
+        Checks.due("3 * 199 / 100 and 4 * 199 / 100", "5 7", () -> x.sizeOf(0, 0, 0) + " " + x.sizeOf(0, 0, 1));
+        Checks.due("8 * 1 / 3 are 2, and of the 2 left a and b get one", "3 3 2", () -> Checks.row(0, 2, x::share));
+        x.run(2);
+        Checks.due("5 bytes in 2 ticks", 2, () -> x.player(0, 11));
+        x.setRate(0, 9999);
+        x.run(3);
+        Checks.due("buffer 4 * 2 / 10", "4 0", () -> x.player(0, 1) + " " + x.wouldChoose(0));
+    }
+
+    private static void numbers() {
+        Checks.sentence("Terms", "Players, segments, qualities, pieces of the link and ticks are numbered from 0.");
+        SharedLink x = ran("net 1 1 1 10;link 1 10;link 1 20;player a lowest 1 1 4 5;player b lowest 1 2 6 7;", 1);
+        Checks.due("players", "1 2", () -> Checks.row(0, 1, p -> x.player(p, 13)));
+        Checks.due("segments and qualities", "4 5", () -> Checks.row(0, 1, q -> x.sizeOf(0, 0, q)));
+        Checks.due("loaded: quality, size, ticks", "0 4 0 0", () -> Checks.row(0, 3, part -> x.loaded(0, 0, part)));
+        Checks.due("ticks of the link", "10 20", () -> Checks.row(0, 1, x::rate));
+        Checks.due("pieces", "10 20", () -> Checks.row(0, 1, piece -> x.setRate(piece, 0)));
+    }
+
     // ---- SEGMENTS
 
     private static void segmentLasts() {
-        Checks.sentence("A segment lasts length ticks.");
+        Checks.sentence("SEGMENTS", "A segment lasts length ticks.");
         for (int length : new int[] {1, 2, 19, 20}) {
             SharedLink x = ran("net " + length + " 1 200 100;player a lowest 3 1 1;", 199);
             told("length " + length, x, 0, "3 0 " + 3 * length, 0, 1, 5);
@@ -68,7 +92,7 @@ public final class TickEdgesTest {
     }
 
     private static void segmentAtLeastOne() {
-        Checks.sentence("its size number q * percent / 100, but at least 1");
+        Checks.sentence("SEGMENTS", "its size number q * percent / 100, but at least 1");
         SharedLink x = Checks.net("net 1 1 1 10;vary 50 99 100 200;player a lowest 4 1 1 2 3 9999;");
         int[][] due = {{1, 1, 1, 4999}, {1, 1, 2, 9899}, {1, 2, 3, 9999}, {2, 4, 6, 19998}};
         for (int k = 0; k < 4; k++) {
@@ -84,7 +108,7 @@ public final class TickEdgesTest {
     }
 
     private static void percentsAgain() {
-        Checks.sentence("with the percent number k modulo the number of percents");
+        Checks.sentence("SEGMENTS", "with the percent number k modulo the number of percents");
         String[] vary = {"vary 50;", "vary 50 60;", "vary 50 60 70;", "vary 50 60 70 80;"};
         for (int percents = 1; percents <= 4; percents++) {
             SharedLink x = Checks.net("net 1 1 1 10;player a lowest 30 1 100;" + vary[percents - 1]);
@@ -96,7 +120,7 @@ public final class TickEdgesTest {
     }
 
     private static void withoutVary() {
-        Checks.sentence("(100 without vary)");
+        Checks.sentence("SEGMENTS", "(100 without vary)");
         SharedLink x = Checks.net("net 1 1 1 10;player a lowest 30 1 1 9999;");
         Checks.due("the sizes", "1 9999 1 9999", () -> x.sizeOf(0, 0, 0) + " " + x.sizeOf(0, 0, 1) + " " + x.sizeOf(0, 29, 0) + " "
                 + x.sizeOf(0, 29, 1));
@@ -105,7 +129,7 @@ public final class TickEdgesTest {
     // ---- PLAYERS
 
     private static void joinedAtLeast() {
-        Checks.sentence("A player has joined if the time is at least its tick of join");
+        Checks.sentence("PLAYERS", "A player has joined if the time is at least its tick of join");
         SharedLink x = ran("net 1 1 9 100;link 1 10;player a lowest 3 1 10;join a 5;", 5);
         told("at 5, before the tick 5", x, 0, "0 0 0 -1 0 0", 0, 1, 2, 3, 5, 10);
         x.run(1);
@@ -123,7 +147,7 @@ public final class TickEdgesTest {
     }
 
     private static void withoutJoin() {
-        Checks.sentence("(0 without one). At first it is starting.");
+        Checks.sentence("PLAYERS", "(0 without one). At first it is starting.");
         SharedLink x = Checks.net("net 1 1 9 100;player a lowest 1 1 10;player b lowest 1 1 10;join b 0;player c lowest 1 1 10;join c 1;");
         for (int p = 0; p < 3; p++) {
             told("at first", x, p, "0 0 0 -1 0 0 0 0 0 0 0 0", 0, 1, 2, 3, 4, 5, 6, 7, 8, 9, 10, 11);
@@ -136,7 +160,7 @@ public final class TickEdgesTest {
     }
 
     private static void oneAfterTheOther() {
-        Checks.sentence("It loads its segments one after the other.");
+        Checks.sentence("PLAYERS", "It loads its segments one after the other.");
         SharedLink x = ran("net 1 1 9 100;link 1 10;player a lowest 3 1 25;", 3);
         told("the rest of a tick is for no other segment", x, 0, "1 -1 25", 2, 3, 10);
         Checks.due("it is not used", "25 5", () -> x.account(0) + " " + x.account(1));
@@ -149,7 +173,7 @@ public final class TickEdgesTest {
 
     /** A segment of 3 ticks comes in the tick 0; the buffer is 2, 1, 0 at the times 1, 2, 3. */
     private static void asksWithBuffer() {
-        Checks.sentence("either its buffer is 0, or its buffer plus length is at most full");
+        Checks.sentence("PLAYERS", "either its buffer is 0, or its buffer plus length is at most full");
         int[] due = {3, 3, 3, 2, 1, 1};
         for (int full = 1; full <= 6; full++) {
             SharedLink x = ran("net 3 1 " + full + " 100;player a lowest 2 1 10;", 10);
@@ -165,7 +189,7 @@ public final class TickEdgesTest {
     }
 
     private static void loadsNoneElse() {
-        Checks.sentence("It can ask for its next segment if it has joined, loads none");
+        Checks.sentence("PLAYERS", "It can ask for its next segment if it has joined, loads none");
         SharedLink x = ran("net 1 1 9 100;link 1 0;player a lowest 3 1 10 20;", 4);
         told("it loads the first", x, 0, "0 0 10", 2, 3, 4);
         x.setRate(0, 9999);
@@ -175,7 +199,7 @@ public final class TickEdgesTest {
     }
 
     private static void hasNotLoadedAll() {
-        Checks.sentence("has not loaded all");
+        Checks.sentence("PLAYERS", "has not loaded all");
         for (int segments : new int[] {1, 30}) {
             SharedLink x = ran("net 1 1 1 100;player a lowest " + segments + " 1 10;", segments);
             told("all " + segments, x, 0, segments + " -1 0 " + 10 * segments, 2, 3, 4, 10);
@@ -186,7 +210,7 @@ public final class TickEdgesTest {
     }
 
     private static void choosesWhenItAsks() {
-        Checks.sentence("It chooses the quality when it asks, by its rule");
+        Checks.sentence("PLAYERS", "It chooses the quality when it asks, by its rule");
         SharedLink x = ran("net 1 60 10 100;link 1 9999;player a buffer 30 1 1 9998;", 9);
         x.setRate(0, 0);
         x.run(1);
@@ -203,7 +227,7 @@ public final class TickEdgesTest {
     }
 
     private static void lowest() {
-        Checks.sentence("lowest: 0.");
+        Checks.sentence("PLAYERS", "lowest: 0.");
         SharedLink x = ran("net 1 60 10 100;link 1 9999;player a lowest 30 1 10 11 12 13;", 10);
         Checks.due("with a full buffer", "10 0", () -> x.player(0, 1) + " " + x.wouldChoose(0));
         Checks.due("always", "0 0 0 0 0 0 0 0 0 0", () -> Checks.row(0, 9, k -> x.loaded(0, k, 0)));
@@ -211,7 +235,7 @@ public final class TickEdgesTest {
 
     /** The buffer is t at the time t. */
     private static void bufferRule() {
-        Checks.sentence("buffer: buffer * number of qualities / full");
+        Checks.sentence("PLAYERS", "buffer: buffer * number of qualities / full");
         SharedLink x = Checks.net("net 1 60 10 100;link 1 9999;player a buffer 30 1 1 2 3 4;");
         int[] due = {0, 0, 0, 1, 1, 2, 2, 2, 3, 3};
         for (int quality : due) {
@@ -227,7 +251,7 @@ public final class TickEdgesTest {
     }
 
     private static void bufferRuleMost() {
-        Checks.sentence("but at most the greatest quality");
+        Checks.sentence("PLAYERS", "but at most the greatest quality");
         SharedLink x = ran("net 1 60 10 100;link 1 9999;player a buffer 30 1 1 2 3 4;", 10);
         Checks.due("a full buffer", "10 3", () -> x.player(0, 1) + " " + x.wouldChoose(0));
         SharedLink y = ran("net 20 60 1 100;player a buffer 30 1 1 2 3 4;", 1);
@@ -238,7 +262,7 @@ public final class TickEdgesTest {
 
     /** The measured rate is 100 at the time 1; segment 1 has the sizes 50, 100, 100, 101. */
     private static void rateRule() {
-        Checks.sentence("the greatest quality with which size of the next segment * 100 is at most its measured rate * length * safety");
+        Checks.sentence("PLAYERS", "the greatest quality with which size of the next segment * 100 is at most its measured rate * length * safety");
         String rest = ";link 1 100;vary 100 50;player r rate 3 1 100 200 201 202;";
         String[] heads = {"net 1 60 200 100", "net 1 60 200 99", "net 10 60 200 10", "net 10 60 200 11", "net 2 60 200 50", "net 2 60 200 49",
             "net 20 60 200 100"};
@@ -254,7 +278,7 @@ public final class TickEdgesTest {
     }
 
     private static void rateRuleNone() {
-        Checks.sentence("0 if there is none.");
+        Checks.sentence("PLAYERS", "0 if there is none.");
         SharedLink x = ran("net 1 60 200 100;link 1 10;player r rate 3 1 100 200;", 10);
         Checks.due("100 bytes at a rate of 10", "10 0", () -> x.player(0, 11) + " " + x.wouldChoose(0));
         x.setRate(0, 9999);
@@ -263,7 +287,7 @@ public final class TickEdgesTest {
     }
 
     private static void measuredTicks() {
-        Checks.sentence("divided by the ticks that this took, from the one in which it asked to the one in which it came, both counted");
+        Checks.sentence("PLAYERS", "divided by the ticks that this took, from the one in which it asked to the one in which it came, both counted");
         String rest = "player r rate 9 1 ";
         told("7 bytes of 7", ran("net 1 1 9 100;link 1 7;" + rest + "7;", 1), 0, "7", 11);
         told("7 bytes of 6", ran("net 1 1 9 100;link 1 6;" + rest + "7;", 2), 0, "3", 11);
@@ -271,7 +295,7 @@ public final class TickEdgesTest {
         told("6 bytes of 3", ran("net 1 1 9 100;link 1 3;" + rest + "6;", 2), 0, "3", 11);
         told("1 byte of 9999", ran("net 1 1 9 100;link 1 9999;" + rest + "1;", 1), 0, "1", 11);
         told("2 bytes in three ticks", ran("net 1 1 9 100;link 2 0;link 1 9;" + rest + "2;", 3), 0, "1 0", 2, 11);
-        Checks.sentence("The measured rate is the size of the segment that it loaded last");
+        Checks.sentence("PLAYERS", "The measured rate is the size of the segment that it loaded last");
         SharedLink x = ran("net 1 1 9 100;link 1 10;player r rate 9 1 40;", 4);
         told("the first", x, 0, "1 10", 2, 11);
         x.run(3);
@@ -284,7 +308,7 @@ public final class TickEdgesTest {
     }
 
     private static void measuredAtFirst() {
-        Checks.sentence("0 at first.");
+        Checks.sentence("PLAYERS", "0 at first.");
         SharedLink x = ran("net 1 1 9 100;link 1 9;player r rate 9 1 10 11;", 1);
         told("before a segment has come", x, 0, "9 0", 10, 11);
         Checks.due("it would choose", 0, () -> x.wouldChoose(0));
@@ -294,7 +318,7 @@ public final class TickEdgesTest {
 
     /** buffer 2, 4, 6, 8 at the times 1 to 4, measured 10, 19, 20. */
     private static void mix() {
-        Checks.sentence("mix: the lesser one of what buffer and rate choose.");
+        Checks.sentence("PLAYERS", "mix: the lesser one of what buffer and rate choose.");
         SharedLink x = ran("net 2 60 8 100;link 1 9999;player m mix 30 1 10 19 20 21;", 1);
         rules("buffer less", x, "0 1 2 1");
         x.run(1);
@@ -319,7 +343,7 @@ public final class TickEdgesTest {
     // ---- A TICK
 
     private static void asksInATick() {
-        Checks.sentence("Each player, in ascending order, asks for a segment if it can.");
+        Checks.sentence("A TICK", "Each player, in ascending order, asks for a segment if it can.");
         SharedLink x = ran("net 1 1 1 100;link 1 0;player a lowest 2 1 10;player b lowest 2 1 10;join b 1;player c lowest 2 1 10;", 1);
         Checks.due("a and c have asked", "0 -1 0", () -> Checks.row(0, 2, p -> x.player(p, 3)));
         Checks.due("the missing bytes", "10 0 10", () -> Checks.row(0, 2, p -> x.player(p, 4)));
@@ -346,7 +370,7 @@ public final class TickEdgesTest {
     }
 
     private static void sharesNothingLeft() {
-        Checks.sentence("Again and again, until nothing is left or no player that loads needs more");
+        Checks.sentence("A TICK", "Again and again, until nothing is left or no player that loads needs more");
         shares(three(0), "0 0 0");
         shares(three(3), "1 1 1");
         shares(three(149), "50 50 49");
@@ -356,7 +380,7 @@ public final class TickEdgesTest {
     }
 
     private static void sharesAtMostTheNeed() {
-        Checks.sentence("each of these gets left * weight / sum, but at most what it needs");
+        Checks.sentence("A TICK", "each of these gets left * weight / sum, but at most what it needs");
         String two = "player a lowest 1 9 50;player b lowest 1 1 50;";
         shares("net 1 1 1 10;link 1 10;" + two, "9 1");
         shares("net 1 1 1 10;link 1 19;" + two, "18 1");
@@ -371,7 +395,7 @@ public final class TickEdgesTest {
     }
 
     private static void sharesSingleBytes() {
-        Checks.sentence("if that would be 0 for all of them, they get one byte each instead, in ascending order, as long as there are bytes left");
+        Checks.sentence("A TICK", "if that would be 0 for all of them, they get one byte each instead, in ascending order, as long as there are bytes left");
         shares(three(1), "1 0 0");
         shares(three(2), "1 1 0");
         shares(three(4), "2 1 1");
@@ -387,7 +411,7 @@ public final class TickEdgesTest {
     }
 
     private static void sharesAmongThoseInNeed() {
-        Checks.sentence("the sum of the weights of the players that still need bytes");
+        Checks.sentence("A TICK", "the sum of the weights of the players that still need bytes");
         shares("net 1 1 1 10;link 1 4;player a lowest 1 1 1;player b lowest 1 1 99;player c lowest 1 1 99;", "1 2 1");
         shares("net 1 1 1 10;link 1 40;player a lowest 1 9 1;player b lowest 1 1 99;", "1 39");
         shares("net 1 1 1 10;link 1 2;player a lowest 1 1 99;player b lowest 1 1 1;", "1 1");
@@ -402,7 +426,7 @@ public final class TickEdgesTest {
     }
 
     private static void comesAsAWhole() {
-        Checks.sentence("Each player, in ascending order, whose segment has come as a whole puts it into its buffer");
+        Checks.sentence("A TICK", "Each player, in ascending order, whose segment has come as a whole puts it into its buffer");
         SharedLink x = ran("net 5 60 60 100;link 1 9;player a lowest 2 1 10;", 1);
         told("a byte is missing", x, 0, "0 0 0 1", 1, 2, 3, 4);
         Checks.due("came", -1, () -> x.loaded(0, 0, 3));
@@ -415,7 +439,7 @@ public final class TickEdgesTest {
     }
 
     private static void growsByLength() {
-        Checks.sentence("which grows by length");
+        Checks.sentence("A TICK", "which grows by length");
         for (int length : new int[] {1, 20}) {
             SharedLink x = Checks.net("net " + length + " 60 200 100;player a lowest 9 1 10;");
             x.run(1);
@@ -426,7 +450,7 @@ public final class TickEdgesTest {
     }
 
     private static void joinedOnly() {
-        Checks.sentence("4. Each player that has joined, in ascending order");
+        Checks.sentence("A TICK", "4. Each player that has joined, in ascending order");
         SharedLink x = ran("net 1 1 1 100;link 1 0;player a lowest 2 1 10;join a 3;", 3);
         told("not joined", x, 0, "0 -1 0 0 0", 0, 3, 5, 6, 7);
         x.run(1);
@@ -436,7 +460,7 @@ public final class TickEdgesTest {
     }
 
     private static void startReached() {
-        Checks.sentence("if it is starting or stalled, and its buffer is at least start");
+        Checks.sentence("A TICK", "if it is starting or stalled, and its buffer is at least start");
         told("buffer 2, start 1", ran("net 2 1 9 100;player a lowest 9 1 10;", 1), 0, "1 1 1", 0, 1, 5);
         told("buffer 2, start 2", ran("net 2 2 9 100;player a lowest 9 1 10;", 1), 0, "1 1 1", 0, 1, 5);
         told("buffer 2, start 3", ran("net 2 3 9 100;player a lowest 9 1 10;", 1), 0, "0 2 0", 0, 1, 5);
@@ -447,7 +471,7 @@ public final class TickEdgesTest {
     }
 
     private static void loadedAll() {
-        Checks.sentence("or it has loaded all its segments, it is playing from now on");
+        Checks.sentence("A TICK", "or it has loaded all its segments, it is playing from now on");
         SharedLink x = ran("net 2 60 9 100;link 1 10;player a lowest 2 1 20;", 3);
         told("one is missing", x, 0, "0 2 1 0", 0, 1, 2, 5);
         x.run(1);
@@ -457,7 +481,7 @@ public final class TickEdgesTest {
 
     /** A segment of one tick takes three ticks to come: in the tick 2 it is played, in 3 and 4 nothing is. */
     private static void neitherPlayedNorStalled() {
-        Checks.sentence("(so no tick is both played and stalled)");
+        Checks.sentence("A TICK", "(so no tick is both played and stalled)");
         SharedLink x = Checks.net("net 1 1 1 100;link 1 1;player a lowest 3 1 3;");
         String[] due = {"0 0 0 0", "0 0 0 0", "1 1 0 0", "2 1 1 1", "2 1 2 1", "1 2 2 1", "2 2 3 2", "2 2 4 2", "3 3 4 2", "3 3 4 2"};
         for (String row : due) {
@@ -468,7 +492,7 @@ public final class TickEdgesTest {
     }
 
     private static void stallBegins() {
-        Checks.sentence("otherwise, if it has not loaded all, it is stalled, and a stall begins");
+        Checks.sentence("A TICK", "otherwise, if it has not loaded all, it is stalled, and a stall begins");
         SharedLink x = ran("net 2 1 9 100;link 1 10;player a lowest 3 1 10;", 1);
         x.setRate(0, 0);
         x.run(1);
@@ -485,7 +509,7 @@ public final class TickEdgesTest {
 
     /** Two segments of one tick start it; at a rate of 5 every second tick brings one. */
     private static void stalledUntilStart() {
-        Checks.sentence("it is playing from now on. If it is playing: if its buffer is not 0, the buffer shrinks by 1, and one tick is played");
+        Checks.sentence("A TICK", "it is playing from now on. If it is playing: if its buffer is not 0, the buffer shrinks by 1, and one tick is played");
         SharedLink x = ran("net 1 2 5 100;link 1 10;player a lowest 6 1 10;", 2);
         told("start is reached", x, 0, "1 1 1 0 0", 0, 1, 5, 6, 7);
         x.setRate(0, 5);
@@ -502,7 +526,7 @@ public final class TickEdgesTest {
     }
 
     private static void oneTickEach() {
-        Checks.sentence("If it is stalled then (also if it just became so), one tick is stalled.");
+        Checks.sentence("A TICK", "If it is stalled then (also if it just became so), one tick is stalled.");
         SharedLink x = ran("net 1 1 1 100;link 1 10;player a lowest 3 1 10;", 1);
         x.setRate(0, 0);
         for (int ticks = 1; ticks <= 4; ticks++) {
@@ -515,7 +539,7 @@ public final class TickEdgesTest {
     }
 
     private static void done() {
-        Checks.sentence("If it has loaded all and its buffer is 0 then, it is done.");
+        Checks.sentence("A TICK", "If it has loaded all and its buffer is 0 then, it is done.");
         SharedLink x = ran("net 3 1 9 100;player a lowest 1 1 10;", 2);
         told("one tick is left", x, 0, "1 1 2", 0, 1, 5);
         x.run(1);
@@ -525,7 +549,7 @@ public final class TickEdgesTest {
     }
 
     private static void timeGoesOn() {
-        Checks.sentence("A TICK, with the time t (0 at first) .. 5. The time becomes t + 1.");
+        Checks.sentence("A TICK", "5. The time becomes t + 1.");
         SharedLink x = Checks.net("net 1 1 9 100;player a lowest 3 1 10;");
         Checks.due("at first", 0, () -> x.size(7));
         Checks.due("a tick", 1, () -> x.run(1));
@@ -538,7 +562,7 @@ public final class TickEdgesTest {
     // ---- A FORECAST
 
     private static void forecastEnds() {
-        Checks.sentence("A FORECAST lets ticks pass until all players are done or have quit");
+        Checks.sentence("A FORECAST", "A FORECAST lets ticks pass until all players are done or have quit");
         SharedLink x = Checks.net("net 1 1 1 100;player a lowest 3 1 10;player b lowest 5 1 10;join b 9;player c lowest 1 1 10;join c 99;");
         Checks.due("all are done", 100, () -> x.forecast(0, 5));
         x.quit(2);
@@ -556,7 +580,7 @@ public final class TickEdgesTest {
 
     /** Nothing comes before the rate is set; then one segment of one tick in a tick. */
     private static void forecastAtMost() {
-        Checks.sentence("but at most until the time 2000");
+        Checks.sentence("A FORECAST", "but at most until the time 2000");
         SharedLink x = Checks.net("net 1 1 1 10;link 1 0;player a lowest 3 1 10;");
         Checks.due("nothing ever comes", "0 0 0 0 0 2000", () -> Checks.row(0, 5, what -> x.forecast(0, what)));
         for (int i = 0; i < 10; i++) {
@@ -576,7 +600,7 @@ public final class TickEdgesTest {
     }
 
     private static void forecastOnACopy() {
-        Checks.sentence("on a copy");
+        Checks.sentence("A FORECAST", "on a copy");
         SharedLink x = ran("net 2 2 8 100;link 3 10;link 2 20;player a mix 9 1 30 60;player b rate 9 2 30 31;join b 9;", 5);
         SharedLink y = ran("net 2 2 8 100;link 3 10;link 2 20;player a mix 9 1 30 60;player b rate 9 2 30 31;join b 9;", 5);
         String before = Checks.row(0, 16, what -> x.player(0, what));
