@@ -132,16 +132,22 @@ public final class ChangesEdgesTest {
 
     private static void latestFirst() {
         Checks.sentence("CHANGES", "the latest first");
+        for (int left = 4; left >= 0; left--) {
+            SharedLink x = changed(5);
+            for (int i = 4; i > left; i--) {
+                x.undo();
+            }
+            Checks.due("undo", left, x::undo);
+            Checks.due("the state with " + left, Checks.state(changed(left)), () -> Checks.state(x));
+        }
+    }
+
+    private static SharedLink changed(int changes) {
         SharedLink x = Checks.net(NET);
-        String[] states = new String[6];
-        for (int i = 0; i < 5; i++) {
-            states[i] = Checks.state(x);
+        for (int i = 0; i < changes; i++) {
             change(x, (i + 3) % 5);
         }
-        for (int i = 4; i >= 0; i--) {
-            Checks.due("undo", i, x::undo);
-            Checks.due("the state " + i, states[i], () -> Checks.state(x));
-        }
+        return x;
     }
 
     private static void tenAfterUndo() {

@@ -11,8 +11,11 @@ public final class ChangesTest {
         quit();
         undoOfEach();
         undoOfTen();
+        changeAfterUndo();
         undoCountsChanges();
+        emptySlot();
         snapshots();
+        noSlot();
         snapshotsAndUndo();
         loadedComesBack();
         Checks.end("ChangesTest");
@@ -159,30 +162,46 @@ public final class ChangesTest {
     }
 
     private static void undoOfTen() {
+        for (int changes = 0; changes <= 13; changes++) {
+            SharedLink x = changed(changes);
+            Checks.due("changes that can be undone", Math.min(changes, 10), () -> x.size(10));
+        }
+        for (int changes = 12; changes >= 3; changes--) {
+            SharedLink x = undone(13, 12 - changes);
+            Checks.due("undo", changes - 3, x::undo);
+            Checks.due("the state with " + changes + " changes", Checks.state(changed(changes)), () -> Checks.state(x));
+        }
+        Checks.due("no more than ten", -1, () -> undone(13, 10).undo());
+        Checks.due("that changed nothing", Checks.state(changed(3)), () -> Checks.state(undone(13, 11)));
+    }
+
+    private static void changeAfterUndo() {
+        SharedLink x = undone(13, 11);
+        x.run(4);
+        Checks.due("a change after undo", 1, () -> x.size(10));
+        Checks.due("it is done as before", Checks.state(changed(4)), () -> Checks.state(x));
+        Checks.due("its undo", 0, x::undo);
+        Checks.due("the state", Checks.state(changed(3)), () -> Checks.state(x));
+    }
+
+    private static SharedLink changed(int changes) {
         SharedLink x = Checks.net(NET);
-        String[] states = new String[13];
-        for (int i = 0; i < 13; i++) {
-            states[i] = Checks.state(x);
-            int due = Math.min(i, 10);
-            Checks.due("changes that can be undone", due, () -> x.size(10));
+        for (int i = 0; i < changes; i++) {
             if (i == 5) {
                 x.setRate(0, 3);
             } else {
                 x.run(i + 1);
             }
         }
-        for (int i = 12; i > 2; i--) {
-            int due = i - 3;
-            Checks.due("undo", due, x::undo);
-            Checks.due("the state before the change " + i, states[i], () -> Checks.state(x));
+        return x;
+    }
+
+    private static SharedLink undone(int changes, int undos) {
+        SharedLink x = changed(changes);
+        for (int i = 0; i < undos; i++) {
+            x.undo();
         }
-        Checks.due("no more than ten", -1, x::undo);
-        Checks.due("that changed nothing", states[3], () -> Checks.state(x));
-        x.run(4);
-        Checks.due("a change after undo", 1, () -> x.size(10));
-        Checks.due("it is done as before", states[4], () -> Checks.state(x));
-        Checks.due("its undo", 0, x::undo);
-        Checks.due("the state", states[3], () -> Checks.state(x));
+        return x;
     }
 
     private static void undoCountsChanges() {
@@ -209,7 +228,8 @@ public final class ChangesTest {
         Checks.due("a plays again", 0, () -> x.player(0, 0));
     }
 
-    private static void snapshots() {
+    /** With a snapshot of the time 0 in slot 0, and five changes behind it. */
+    private static SharedLink changedBehindSlot0() {
         SharedLink x = Checks.net(NET);
         Checks.illegalState("slot 0 is empty", () -> x.restoreSnapshot(0));
         Checks.due("slot 0", false, () -> x.saveSnapshot(0));
@@ -218,9 +238,19 @@ public final class ChangesTest {
         x.setRule(1, 2);
         x.setWeight(0, 8);
         x.quit(1);
-        String later = Checks.state(x);
+        return x;
+    }
+
+    private static void emptySlot() {
+        SharedLink x = changedBehindSlot0();
         Checks.illegalState("slot 1 is empty", () -> x.restoreSnapshot(1));
-        Checks.due("an exception changes nothing", "5 " + later, () -> x.size(10) + " " + Checks.state(x));
+        String due = Checks.state(changedBehindSlot0());
+        Checks.due("an exception changes nothing", "5 " + due, () -> x.size(10) + " " + Checks.state(x));
+    }
+
+    private static void snapshots() {
+        String later = Checks.state(changedBehindSlot0());
+        SharedLink x = changedBehindSlot0();
         Checks.due("slot 1", false, () -> x.saveSnapshot(1));
         Checks.due("to slot 0", 0, () -> x.restoreSnapshot(0));
         Checks.due("all of it", Checks.state(Checks.net(NET)), () -> Checks.state(x));
@@ -234,37 +264,57 @@ public final class ChangesTest {
         Checks.due("slot 0 again", true, () -> x.saveSnapshot(0));
         x.run(1);
         Checks.due("the later one counts", 9, () -> x.restoreSnapshot(0));
+    }
+
+    private static void noSlot() {
+        SharedLink x = changedBehindSlot0();
         for (int slot : new int[] {-1, 2, Integer.MAX_VALUE, Integer.MIN_VALUE}) {
             Checks.outOfBounds("save in slot " + slot, () -> x.saveSnapshot(slot));
             Checks.outOfBounds("restore slot " + slot, () -> x.restoreSnapshot(slot));
         }
     }
 
-    /** The segments that were loaded come back too, where others have been loaded in between. */
-    private static void loadedComesBack() {
-        SharedLink x = Checks.net("net 2 1 8 100;link 1 40;player a buffer 9 1 10 20 30 40;player b rate 9 1 10 20;join b 2;");
+    private static SharedLink loading() {
+        return Checks.net("net 2 1 8 100;link 1 40;player a buffer 9 1 10 20 30 40;player b rate 9 1 10 20;join b 2;");
+    }
+
+    /** The first way in slot 0, the beginning in slot 1, and another way now. */
+    private static SharedLink twoWays() {
+        SharedLink x = loading();
         x.saveSnapshot(1);
         x.run(9);
-        String first = Checks.state(x);
         x.saveSnapshot(0);
         x.restoreSnapshot(1);
         x.setRate(0, 7);
         x.setRule(1, 0);
         x.run(30);
-        String second = Checks.state(x);
-        Checks.due("another way", false, () -> second.equals(first));
+        return x;
+    }
+
+    /** The segments that were loaded come back too, where others have been loaded in between. */
+    private static void loadedComesBack() {
+        SharedLink first = loading();
+        first.run(9);
+        String due = Checks.state(first);
+        Checks.due("another way", false, () -> due.equals(Checks.state(twoWays())));
+        SharedLink x = twoWays();
         x.restoreSnapshot(0);
-        Checks.due("the first way by a snapshot", first, () -> Checks.state(x));
+        Checks.due("the first way by a snapshot", due, () -> Checks.state(x));
         x.restoreSnapshot(1);
         x.run(9);
-        Checks.due("the first way by the same changes", first, () -> Checks.state(x));
-        x.undo();
-        x.setRate(0, 3);
-        x.run(40);
-        x.undo();
-        x.undo();
-        x.run(9);
-        Checks.due("the first way by undo", first, () -> Checks.state(x));
+        Checks.due("the first way by the same changes", due, () -> Checks.state(x));
+        SharedLink y = twoWays();
+        y.undo();
+        y.undo();
+        y.undo();
+        y.run(9);
+        y.undo();
+        y.setRate(0, 3);
+        y.run(40);
+        y.undo();
+        y.undo();
+        y.run(9);
+        Checks.due("the first way by undo", due, () -> Checks.state(y));
     }
 
     private static void snapshotsAndUndo() {

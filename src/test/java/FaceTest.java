@@ -69,7 +69,7 @@ public final class FaceTest {
         }
         for (Class<?> inside : SharedLink.class.getDeclaredClasses()) {
             for (Method method : inside.getDeclaredMethods()) {
-                if (names.contains(method.getName())) {
+                if (Modifier.isPrivate(method.getModifiers()) && names.contains(method.getName())) {
                     hiding.add(inside.getSimpleName() + "." + method.getName());
                 }
             }

@@ -2,9 +2,12 @@ import java.util.Random;
 
 /**
  * Random calls on SharedLink and on PlainModel must have the same answers. The seeds are fixed;
- * other ones: java ModelTest FIRST_SEED SEEDS.
+ * other ones: java ModelTest FIRST_SEED SEEDS. Each seed has an object of its own, which is used
+ * for at most 512 calls, since nothing is promised behind them.
  */
 public final class ModelTest {
+    private static final int MOST_CALLS = 512;
+    private static final int GLANCES = 12;
     private static final String[] RULES = {"lowest", "buffer", "rate", "mix"};
     private static final String[] NAMES = {"a", "bob", "link", "abcdefgh", "net", "join", "z"};
     private static final String[] ODD = {
@@ -14,6 +17,7 @@ public final class ModelTest {
     private final Random random;
     private final SharedLink x = new SharedLink();
     private final PlainModel m = new PlainModel();
+    private int calls;
 
     private ModelTest(long seed) {
         random = new Random(seed);
@@ -21,7 +25,7 @@ public final class ModelTest {
 
     public static void main(String[] args) {
         int first = args.length > 0 ? Integer.parseInt(args[0]) : 1;
-        int seeds = args.length > 1 ? Integer.parseInt(args[1]) : 400;
+        int seeds = args.length > 1 ? Integer.parseInt(args[1]) : 1000;
         for (int seed = first; seed < first + seeds; seed++) {
             new ModelTest(seed).compare(seed);
         }
@@ -29,14 +33,12 @@ public final class ModelTest {
     }
 
     private void compare(int seed) {
-        int calls = 0;
-        boolean whole = random.nextInt(8) == 0;
-        while (calls < 80) {
-            if (calls == 0 || random.nextInt(whole ? 3 : 40) == 0) {
-                calls += sayText(seed, whole ? random.nextBoolean() : random.nextInt(5) == 0);
+        boolean texts = random.nextInt(8) == 0;
+        while (calls < MOST_CALLS) {
+            if (calls == 0 || random.nextInt(texts ? 3 : 40) == 0) {
+                sayText(seed, texts ? random.nextBoolean() : random.nextInt(5) == 0);
             }
             call(seed);
-            calls++;
         }
     }
 
@@ -105,7 +107,7 @@ public final class ModelTest {
         return t.toString();
     }
 
-    private int sayText(int seed, boolean spoil) {
+    private void sayText(int seed, boolean spoil) {
         seedOfNames = upTo(6);
         String text = text();
         if (spoil) text = spoiled(text);
@@ -115,7 +117,6 @@ public final class ModelTest {
         int length = random.nextInt(30) == 0 ? between(-1, 620) : Math.min(600, text.length());
         same(seed, "parse " + length + " of " + text, () -> x.parse(length), () -> m.parse(length));
         same(seed, "errorPosition", x::errorPosition, m::errorPosition);
-        return 3;
     }
 
     private void put(int seed, String text) {
@@ -141,7 +142,7 @@ public final class ModelTest {
             case 0: case 1: case 2: case 3: {
                 int ticks = random.nextInt(6) == 0 ? number(200) : random.nextInt(3) == 0 ? 1 : between(1, 12);
                 same(seed, "run " + ticks, () -> x.run(ticks), () -> m.run(ticks));
-                everything(seed);
+                glances(seed);
                 break;
             }
             case 4: {
@@ -163,7 +164,7 @@ public final class ModelTest {
             case 7:
                 if (random.nextInt(4) == 0) same(seed, "quit " + p, () -> x.quit(p), () -> m.quit(p));
                 break;
-            case 8: case 9: same(seed, "undo", x::undo, m::undo); everything(seed); break;
+            case 8: case 9: same(seed, "undo", x::undo, m::undo); glances(seed); break;
             case 10: {
                 int slot = number(1);
                 same(seed, "saveSnapshot " + slot, () -> x.saveSnapshot(slot), () -> m.saveSnapshot(slot));
@@ -172,7 +173,7 @@ public final class ModelTest {
             case 11: {
                 int slot = number(1);
                 same(seed, "restoreSnapshot " + slot, () -> x.restoreSnapshot(slot), () -> m.restoreSnapshot(slot));
-                everything(seed);
+                glances(seed);
                 break;
             }
             case 12: {
@@ -195,55 +196,71 @@ public final class ModelTest {
                 break;
             }
             case 18: same(seed, "errorPosition", x::errorPosition, m::errorPosition); break;
-            default: {
-                int a = number(40);
-                int b = number(40);
-                same(seed, "rate", () -> x.rate(a), () -> m.rate(a));
-                same(seed, "size", () -> x.size(a), () -> m.size(a));
-                same(seed, "player", () -> x.player(p, b), () -> m.player(p, b));
+            default: glance(seed);
+        }
+    }
+
+    private void glances(int seed) {
+        for (int i = 0; i < GLANCES; i++) {
+            glance(seed);
+        }
+    }
+
+    /** A call that changes nothing, where an answer is likely. */
+    private void glance(int seed) {
+        int p = number(m.size(0) - 1);
+        switch (upTo(10)) {
+            case 0: {
+                int tick = number(40);
+                same(seed, "rate " + tick, () -> x.rate(tick), () -> m.rate(tick));
+                break;
+            }
+            case 1: {
+                int what = number(10);
+                same(seed, "size " + what, () -> x.size(what), () -> m.size(what));
+                break;
+            }
+            case 2: {
+                int what = number(3);
+                same(seed, "account " + what, () -> x.account(what), () -> m.account(what));
+                break;
+            }
+            case 3: {
+                int k = number(has(p) ? m.player(p, 2) : 0);
                 int part = number(3);
-                same(seed, "loaded", () -> x.loaded(p, a, part), () -> m.loaded(p, a, part));
-                int quality = number(3);
-                same(seed, "sizeOf", () -> x.sizeOf(p, a, quality), () -> m.sizeOf(p, a, quality));
-                same(seed, "account", () -> x.account(b), () -> m.account(b));
-                same(seed, "wouldChoose", () -> x.wouldChoose(p), () -> m.wouldChoose(p));
-                same(seed, "share", () -> x.share(p), () -> m.share(p));
-                same(seed, "meanQuality", () -> x.meanQuality(p), () -> m.meanQuality(p));
+                same(seed, "loaded " + p + " " + k + " " + part, () -> x.loaded(p, k, part), () -> m.loaded(p, k, part));
+                break;
+            }
+            case 4: {
+                int segment = number(has(p) ? m.player(p, 14) - 1 : 0);
+                int quality = number(has(p) ? m.player(p, 15) - 1 : 0);
+                same(seed, "sizeOf " + p + " " + segment + " " + quality, () -> x.sizeOf(p, segment, quality), () -> m.sizeOf(p, segment, quality));
+                break;
+            }
+            case 5: same(seed, "wouldChoose " + p, () -> x.wouldChoose(p), () -> m.wouldChoose(p)); break;
+            case 6: same(seed, "share " + p, () -> x.share(p), () -> m.share(p)); break;
+            case 7: {
+                same(seed, "fairness", x::fairness, m::fairness);
+                same(seed, "meanQuality " + p, () -> x.meanQuality(p), () -> m.meanQuality(p));
+                same(seed, "isWhole", x::isWhole, m::isWhole);
+                break;
+            }
+            default: {
+                int what = number(16);
+                same(seed, "player " + p + " " + what, () -> x.player(p, what), () -> m.player(p, what));
             }
         }
     }
 
-    private void everything(int seed) {
-        for (int i = 0; i <= 10; i++) {
-            int what = i;
-            same(seed, "size " + what, () -> x.size(what), () -> m.size(what));
-        }
-        for (int i = 0; i <= 3; i++) {
-            int what = i;
-            same(seed, "account " + what, () -> x.account(what), () -> m.account(what));
-        }
-        same(seed, "fairness", x::fairness, m::fairness);
-        same(seed, "isWhole", x::isWhole, m::isWhole);
-        for (int i = 0; i < m.size(0); i++) {
-            int p = i;
-            for (int j = 0; j <= 16; j++) {
-                int what = j;
-                same(seed, "player " + p + " " + what, () -> x.player(p, what), () -> m.player(p, what));
-            }
-            for (int j = 0; j <= m.player(p, 2); j++) {
-                int k = j;
-                for (int part = 0; part < 4; part++) {
-                    int which = part;
-                    same(seed, "loaded", () -> x.loaded(p, k, which), () -> m.loaded(p, k, which));
-                }
-            }
-            same(seed, "wouldChoose " + p, () -> x.wouldChoose(p), () -> m.wouldChoose(p));
-            same(seed, "share " + p, () -> x.share(p), () -> m.share(p));
-            same(seed, "meanQuality " + p, () -> x.meanQuality(p), () -> m.meanQuality(p));
-        }
+    private boolean has(int p) {
+        return p >= 0 && p < m.size(0);
     }
 
     private void same(int seed, String what, Checks.Call call, Checks.Call model) {
+        if (calls == MOST_CALLS) {
+            return;
+        }
+        calls++;
         Checks.due("seed " + seed + ": " + what, Checks.told(model), call);
     }
 }

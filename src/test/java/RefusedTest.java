@@ -61,26 +61,27 @@ public final class RefusedTest {
     }
 
     private static void refused(String what, String due, Supplier<SharedLink> maker, Function<SharedLink, Object> call) {
+        alike(what + ": the net", due, maker, call, Checks::state);
+        alike(what + ": the position, the buffer, the changes", due, maker, call,
+                x -> x.errorPosition() + " " + x.append(0, 0, 0, 0, 0) + " " + x.size(10));
+        alike(what + ": undo", due, maker, call, x -> x.undo() + " " + Checks.state(x));
+        alike(what + ": undo of all", due, maker, call, x -> Checks.row(0, 11, i -> x.undo()) + " " + Checks.state(x));
+        for (int i = 0; i < 2; i++) {
+            int slot = i;
+            alike(what + ": slot " + i, due, maker, call, x -> Checks.told(() -> x.restoreSnapshot(slot)) + " " + Checks.state(x));
+        }
+        alike(what + ": later", due, maker, call, x -> Checks.told(() -> x.run(7)) + " " + Checks.state(x));
+        alike(what + ": the text that waits", due, maker, call,
+                x -> Checks.told(() -> x.parse(BEHIND.length())) + " " + Checks.state(x));
+    }
+
+    /** The document bounds the calls of an object, so each question has two objects of its own. */
+    private static void alike(String what, String due, Supplier<SharedLink> maker, Function<SharedLink, Object> call,
+            Function<SharedLink, Object> question) {
         SharedLink x = maker.get();
         SharedLink y = maker.get();
         Checks.due(what, due, () -> call.apply(x));
-        Checks.due(what + ": the net", Checks.state(y), () -> Checks.state(x));
-        Checks.due(what + ": position of the error", y.errorPosition(), x::errorPosition);
-        Checks.due(what + ": the buffer", y.append(0, 0, 0, 0, 0), () -> x.append(0, 0, 0, 0, 0));
-        Checks.due(what + ": changes", y.size(10), () -> x.size(10));
-        Checks.due(what + ": undo", y.undo(), x::undo);
-        Checks.due(what + ": undone", Checks.state(y), () -> Checks.state(x));
-        Checks.due(what + ": undo of the rest", Checks.row(0, 10, i -> y.undo()), () -> Checks.row(0, 10, i -> x.undo()));
-        Checks.due(what + ": undone", Checks.state(y), () -> Checks.state(x));
-        for (int i = 0; i < 2; i++) {
-            int slot = i;
-            Checks.due(what + ": slot " + i, Checks.told(() -> y.restoreSnapshot(slot)), () -> x.restoreSnapshot(slot));
-            Checks.due(what + ": restored", Checks.state(y), () -> Checks.state(x));
-        }
-        Checks.due(what + ": later", Checks.told(() -> y.run(7)), () -> x.run(7));
-        Checks.due(what + ": later", Checks.state(y), () -> Checks.state(x));
-        Checks.due(what + ": the text that waits", Checks.told(() -> y.parse(BEHIND.length())), () -> x.parse(BEHIND.length()));
-        Checks.due(what + ": its net", Checks.state(y), () -> Checks.state(x));
+        Checks.due(what, question.apply(y), () -> question.apply(x));
     }
 
     private static void text() {

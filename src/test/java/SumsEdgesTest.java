@@ -128,12 +128,13 @@ public final class SumsEdgesTest {
         Checks.sentence("Promise 20 (isWhole)", "the bytes that all players got are those that went through the link, those of each player are the sizes of the segments"
                 + " that it loaded and what it has of the one that it loads, and its ticks played and its buffer together are the segments"
                 + " that it loaded times length");
-        SharedLink x = Checks.net("net 3 2 9 70;link 3 20;link 2 3;vary 50 133;player a mix 9 1 10 20 40;player b rate 9 2 30;join b 4;");
-        for (int tick = 0; tick < 60; tick++) {
-            if (tick == 20) {
+        for (int time = 1; time <= 60; time++) {
+            SharedLink x = Checks.net("net 3 2 9 70;link 3 20;link 2 3;vary 50 133;player a mix 9 1 10 20 40;player b rate 9 2 30;join b 4;");
+            x.run(Math.min(time, 20));
+            if (time > 20) {
                 x.quit(0);
+                x.run(time - 20);
             }
-            x.run(1);
             Checks.due("all bytes", x.account(0), () -> x.player(0, 10) + x.player(1, 10));
             for (int p = 0; p < 2; p++) {
                 int player = p;

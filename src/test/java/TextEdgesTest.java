@@ -486,9 +486,8 @@ public final class TextEdgesTest {
         }
     }
 
-    private static void parseReplaces() {
-        Checks.sentence("Promise 3 (parse)", "On success the described net replaces the current one.");
-        String text = "net 1 60 200 50;player b lowest 12 2 10 20;link 4 25;join b 2;";
+    /** The second net of an object whose first one left nothing as it was at the beginning. */
+    private static SharedLink replaced(String text) {
         SharedLink x = Checks.net("net 1 60 20 100;link 3 5000;link 2 6000;vary 90 110;player a buffer 30 1 30 60 90;player b buffer 9 2 30 31;"
                 + "join a 3;join b 9;");
         x.run(15);
@@ -503,14 +502,21 @@ public final class TextEdgesTest {
         // a has asked with the buffers 0 to 12, for the qualities buffer * 3 / 20; then by its rate of 66 for 90 percent of 60
         Checks.due("the first net: qualities, missing bytes", "5 1 54", () -> x.player(0, 9) + " " + x.player(0, 3) + " " + x.player(0, 4));
         Checks.due("the second net", 0, () -> Checks.parse(x, text));
-        SharedLink y = Checks.net(text);
-        Checks.due("as in a new object", Checks.state(y), () -> Checks.state(x));
+        return x;
+    }
+
+    private static void parseReplaces() {
+        Checks.sentence("Promise 3 (parse)", "On success the described net replaces the current one.");
+        String text = "net 1 60 200 50;player b lowest 12 2 10 20;link 4 25;join b 2;";
+        Checks.due("as in a new object", Checks.state(Checks.net(text)), () -> Checks.state(replaced(text)));
+        SharedLink x = replaced(text);
         Checks.sentence("CHANGES", "A successful parse clears the undo history and empties both slots.");
         Checks.due("no change to undo", "0 -1", () -> x.size(10) + " " + x.undo());
         Checks.illegalState("slot 0", () -> x.restoreSnapshot(0));
         Checks.illegalState("slot 1", () -> x.restoreSnapshot(1));
         Checks.due("no earlier snapshot", "false false", () -> x.saveSnapshot(0) + " " + x.saveSnapshot(1));
         Checks.sentence("Promise 3 (parse)", "On success the described net replaces the current one.");
+        SharedLink y = Checks.net(text);
         for (int time = 1; time <= 16; time++) {
             x.run(1);
             y.run(1);
@@ -518,8 +524,10 @@ public final class TextEdgesTest {
             Checks.due("as in a new object at " + time, due, () -> Checks.row(0, 16, what -> x.player(0, what)));
         }
         Checks.due("all as in a new object", Checks.state(y), () -> Checks.state(x));
-        Checks.due("the same text again", 0, () -> Checks.parse(x, text));
-        Checks.due("is as new", Checks.state(Checks.net(text)), () -> Checks.state(x));
+        SharedLink z = replaced(text);
+        z.run(16);
+        Checks.due("the same text again", 0, () -> Checks.parse(z, text));
+        Checks.due("is as new", Checks.state(Checks.net(text)), () -> Checks.state(z));
     }
 
     private static void parseErrorKeeps() {

@@ -231,7 +231,7 @@ public final class TextTest {
         Checks.due("the same net again", 0, () -> Checks.parse(x, text));
         sizes("again", x, 2, 2, 2, 1, 8, 100, 1, 0, 0, 0, 0);
         SharedLink fresh = Checks.net(text);
-        for (int ticks = 0; ticks < 30; ticks++) {
+        for (int ticks = 0; ticks < 10; ticks++) {
             for (int p = 0; p < 2; p++) {
                 for (int what = 0; what <= 16; what++) {
                     int player = p;
@@ -241,7 +241,7 @@ public final class TextTest {
             }
             int tick = ticks;
             Checks.due("the rate as in a new object", fresh.rate(tick), () -> x.rate(tick));
-            Checks.due("time", fresh.run(1), () -> x.run(1));
+            Checks.due("time", fresh.run(3), () -> x.run(3));
         }
         Checks.due("find zz", 0, () -> Checks.find(x, "zz"));
     }
