@@ -185,6 +185,18 @@ public final class PlayersEdgesTest {
         }
         SharedLink y = ran("net 1 60 200 100;link 1 50;player a lowest 30 1 100;", 1);
         Checks.due("it loads the first", -1, () -> y.loaded(0, 0, 0));
+        SharedLink z = ran("net 1 60 200 100;player a lowest 30 1 100 200;", 3);
+        String none = "-1 ".repeat(30).trim();
+        for (int part = 0; part < 4; part++) {
+            int which = part;
+            Checks.due("none behind the third", none, () -> Checks.row(3, 32, k -> z.loaded(0, k, which)));
+        }
+        z.run(20);
+        z.undo();
+        for (int part = 0; part < 4; part++) {
+            int which = part;
+            Checks.due("none behind the third again", none, () -> Checks.row(3, 32, k -> z.loaded(0, k, which)));
+        }
     }
 
     /** In the tick 0: 10 bytes; 1: 6 bytes; 2: 10 bytes; 3 and 4: 18 bytes. */
